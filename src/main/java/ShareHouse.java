@@ -453,7 +453,7 @@ public final class ShareHouse {
         }
 
         static boolean isNameByte(int c) {
-            return c >= 'a' && c <= 'z' || c >= 'A' && c <= 'Z' || c == '_' || isDigit(c);
+            return c >= 'a' && c <= 'z' || c >= 'A' && c <= 'Z' || c == '_' || c >= '0' && c <= '9';
         }
 
         private void skipBlanks() {
@@ -602,6 +602,10 @@ public final class ShareHouse {
         }
 
         int add(int what, int value, int where) {
+            return add(what, value, where, 0);
+        }
+
+        int add(int what, int value, int where, int besides) {
             op = fit(op, size + 1);
             arg = fit(arg, size + 1);
             at = fit(at, size + 1);
@@ -609,7 +613,7 @@ public final class ShareHouse {
             op[size] = what;
             arg[size] = value;
             at[size] = where;
-            more[size] = 0;
+            more[size] = besides;
             return size++;
         }
 
@@ -1036,7 +1040,7 @@ public final class ShareHouse {
             code.add(Code.BOUND, 0, last);
             int head = code.add(Code.FOR, d, from);
             readBlock(depth);
-            code.more[code.add(Code.NEXT, d, from)] = head + 1;
+            code.add(Code.NEXT, d, from, head + 1);
             code.more[head] = code.size;
         }
 
@@ -1086,7 +1090,7 @@ public final class ShareHouse {
         private void settle(int bottom, int rank) {
             while (waits > bottom && Code.rank(waiting[waits - 1]) >= rank) {
                 waits--;
-                code.more[code.add(waiting[waits], 0, waitingAt[waits])] = waitingRight[waits];
+                code.add(waiting[waits], 0, waitingAt[waits], waitingRight[waits]);
             }
         }
 
@@ -1186,7 +1190,7 @@ public final class ShareHouse {
             for (boolean another = words.kind != ')'; another && count < MOST_TEXT; count++) {
                 int from = words.start;
                 readExpr(depth + 1);
-                code.more[code.add(Code.ARGUMENT, head, from)] = count;
+                code.add(Code.ARGUMENT, head, from, count);
                 another = code.fault == 0 && words.kind == ',';
                 if (another) {
                     words.advance();
@@ -1207,19 +1211,27 @@ public final class ShareHouse {
         }
 
         private boolean opens(int sign, int depth) {
-            if (words.kind == sign && depth >= MOST_NESTED) {
+            if (words.kind != sign) {
+                code.tell(1, words.start);
+            } else if (depth >= MOST_NESTED) {
                 code.tell(3, words.start);
             }
-            expect(sign);
+            if (code.fault == 0) {
+                words.advance();
+            }
             return code.fault == 0;
         }
 
         private int takeName() {
             int from = words.start;
-            if (words.kind == Words.NAME && words.stop - from > MOST_NAME) {
+            if (words.kind != Words.NAME) {
+                code.tell(1, from);
+            } else if (words.stop - from > MOST_NAME) {
                 code.tell(2, from);
             }
-            expect(Words.NAME);
+            if (code.fault == 0) {
+                words.advance();
+            }
             return from;
         }
 
@@ -1232,13 +1244,20 @@ public final class ShareHouse {
             if (value < low || value > high) {
                 code.tell(2, words.start);
             }
-            expect(Words.NUMBER);
+            if (code.fault == 0) {
+                words.advance();
+            }
             return value;
         }
 
         private int takeSort() {
             int sort = words.kind == Words.BIT_WORD ? BIT : INT;
-            expect(sort == BIT ? Words.BIT_WORD : Words.INT_WORD);
+            if (sort == INT && words.kind != Words.INT_WORD) {
+                code.tell(1, words.start);
+            }
+            if (code.fault == 0) {
+                words.advance();
+            }
             return sort;
         }
 
@@ -1597,7 +1616,8 @@ public final class ShareHouse {
         int outputs;
         private int[] outputFrom = new int[8];
         private int[] outputLiterals = new int[64];
-        private int[] clear = new int[0];
+        /** What each wire is in the clear. */
+        private int[] values = new int[0];
 
         void clear(int wires) {
             first = fit(first, MOST_GATES);
@@ -1721,22 +1741,22 @@ public final class ShareHouse {
 
         /** Works all wires out in the clear, which tells what the PROGRAM means of these inputs. */
         void work(Inputs inputs, boolean asDealt) {
-            clear = fit(clear, wires());
+            values = fit(values, wires());
             for (int w = 0; w < inputs.words; w++) {
                 int value = asDealt ? inputs.fixed[w] : inputs.value[w];
                 for (int j = 0; j < inputs.bits[w]; j++) {
-                    clear[inputs.wire[w] + j] = value >>> j & 1;
+                    values[inputs.wire[w] + j] = value >>> j & 1;
                 }
             }
             for (int g = 0; g < gates; g++) {
                 int x = clearOf(first[g]);
                 int y = clearOf(second[g]);
-                clear[inputWires + g] = number[g] == NONE ? x ^ y : x & y;
+                values[inputWires + g] = number[g] == NONE ? x ^ y : x & y;
             }
         }
 
         int clearOf(int x) {
-            return x < 0 ? x & 1 : clear[x >> 1] ^ x & 1;
+            return x < 0 ? x & 1 : values[x >> 1] ^ x & 1;
         }
     }
 
@@ -1746,18 +1766,18 @@ public final class ShareHouse {
         private final int width;
         private final int[] result;
         private final int[] rest;
-        private final int[] less;
+        private final int[] taken;
         private final int[] shifted;
-        private final int[] equal;
+        private final int[] pairs;
 
         Logic(Circuit circuit, int width) {
             this.circuit = circuit;
             this.width = width;
             result = new int[width];
             rest = new int[width];
-            less = new int[width];
+            taken = new int[width];
             shifted = new int[width + 1];
-            equal = new int[width];
+            pairs = new int[width];
         }
 
         int or(int x, int y) {
@@ -1813,18 +1833,17 @@ public final class ShareHouse {
 
         int equal(int[] s, int x, int y, int n) {
             for (int j = 0; j < n; j++) {
-                equal[j] = circuit.xor(s[x + j], s[y + j]) ^ 1;
+                pairs[j] = circuit.xor(s[x + j], s[y + j]) ^ 1;
             }
             return all(n);
         }
 
         int equalTo(int[] s, int x, int number) {
-            if (width < MOST_BITS - 1 && number >= 1 << width) {
+            if (number >= 1L << width) {
                 return ZERO;
             }
             for (int j = 0; j < width; j++) {
-                int bit = j < MOST_BITS ? number >>> j & 1 : 0;
-                equal[j] = circuit.xor(s[x + j], ZERO ^ bit) ^ 1;
+                pairs[j] = circuit.xor(s[x + j], ZERO ^ number >>> j & 1) ^ 1;
             }
             return all(width);
         }
@@ -1833,14 +1852,14 @@ public final class ShareHouse {
             int left = n;
             while (left > 1) {
                 for (int i = 0; i + 1 < left; i += 2) {
-                    equal[i / 2] = circuit.and(equal[i], equal[i + 1]);
+                    pairs[i / 2] = circuit.and(pairs[i], pairs[i + 1]);
                 }
                 if ((left & 1) == 1) {
-                    equal[left / 2] = equal[left - 1];
+                    pairs[left / 2] = pairs[left - 1];
                 }
                 left = (left + 1) / 2;
             }
-            return equal[0];
+            return pairs[0];
         }
 
         void times(int[] s, int x, int y) {
@@ -1872,7 +1891,7 @@ public final class ShareHouse {
                 int c = takeAway(s, y);
                 result[k] = c;
                 for (int j = 0; j < width; j++) {
-                    rest[j] = mux(c, less[j], shifted[j]);
+                    rest[j] = mux(c, taken[j], shifted[j]);
                 }
             }
             System.arraycopy(wantsRest ? rest : result, 0, s, x, width);
@@ -1884,7 +1903,7 @@ public final class ShareHouse {
             for (int j = 0; j <= width; j++) {
                 int u = circuit.xor(j < width ? s[y + j] ^ 1 : ONE, c);
                 if (j < width) {
-                    less[j] = circuit.xor(shifted[j], u);
+                    taken[j] = circuit.xor(shifted[j], u);
                 }
                 int t = circuit.xor(shifted[j], c);
                 c = circuit.xor(c, circuit.and(t, u));
@@ -2015,16 +2034,14 @@ public final class ShareHouse {
                     break;
                 case Code.VAR_SET:
                     top -= width;
-                    for (int k = 0; k < names.words(d); k++) {
-                        keep(d, k);
-                    }
+                    keepAll(d);
                     break;
                 case Code.VAR_ZERO:
-                    Arrays.fill(vars, names.base[d] * width, (names.base[d] + names.words(d)) * width, ZERO);
+                    clearRow(vars, names.base[d] * width, names.words(d) * width);
                     break;
                 case Code.STORE:
                     top -= width;
-                    keep(code.arg[d], 0);
+                    keep(code.arg[d], 0, top);
                     break;
                 case Code.STORE_ELEMENT:
                     storeElement(d);
@@ -2055,11 +2072,7 @@ public final class ShareHouse {
                     beginLoop(i);
                     break;
                 case Code.NEXT:
-                    int d = code.arg[i];
-                    if (now[d] < last[d]) {
-                        now[d]++;
-                        next = code.more[i];
-                    }
+                    takeNextTurn(i);
                     break;
                 default:
                     break;
@@ -2096,7 +2109,7 @@ public final class ShareHouse {
                     call(code.arg[code.arg[i]]);
                     break;
                 case Code.INT_OF:
-                    Arrays.fill(stack, top - width + 1, top, ZERO);
+                    clearRow(stack, top - width + 1, width - 1);
                     break;
                 case Code.BIT_OF:
                     takeBit(i);
@@ -2119,14 +2132,20 @@ public final class ShareHouse {
                     stack[y] ^= 1;
                     break;
                 default:
-                    int x = y - width;
-                    int condition = stack[x - width];
-                    for (int j = 0; j < bitsOf(code.arg[i]); j++) {
-                        stack[x - width + j] = logic.mux(condition, stack[x + j], stack[y + j]);
-                    }
-                    top = x;
+                    choose(bitsOf(code.arg[i]));
                     break;
             }
+        }
+
+        private void choose(int bits) {
+            int y = top - width;
+            int x = y - width;
+            int to = x - width;
+            int condition = stack[to];
+            for (int j = 0; j < bits; j++) {
+                stack[to + j] = logic.mux(condition, stack[x + j], stack[y + j]);
+            }
+            top = x;
         }
 
         private void buildOperator(int i, int op) {
@@ -2238,10 +2257,7 @@ public final class ShareHouse {
             top -= 2 * width;
             int value = top + width;
             if (code.more[head] != 0) {
-                int k = (int) logic.number(stack, top);
-                top = value;
-                keep(d, k);
-                top -= width;
+                keep(d, (int) logic.number(stack, top), value);
                 return;
             }
             for (int k = 0; k < names.size[d]; k++) {
@@ -2253,9 +2269,21 @@ public final class ShareHouse {
             }
         }
 
-        /** What lies just above the top becomes a word of a var; of a bit the rest of its word stays 0. */
-        private void keep(int d, int k) {
-            System.arraycopy(stack, top, vars, (names.base[d] + k) * width, bitsOf(names.sort[d]));
+        private void keepAll(int d) {
+            for (int k = 0; k < names.words(d); k++) {
+                keep(d, k, top);
+            }
+        }
+
+        /** Of a bit the rest of its var's word stays 0, so that an if may go over words alike. */
+        private void keep(int d, int k, int from) {
+            System.arraycopy(stack, from, vars, (names.base[d] + k) * width, bitsOf(names.sort[d]));
+        }
+
+        private static void clearRow(int[] row, int from, int count) {
+            for (int i = from; i < from + count; i++) {
+                row[i] = ZERO;
+            }
         }
 
         private void load(int d, int k, int to) {
@@ -2353,6 +2381,14 @@ public final class ShareHouse {
                 next = code.more[i];
             } else if (last[d] - now[d] >= MOST_TURNS) {
                 code.tell(7, code.at[i]);
+            }
+        }
+
+        private void takeNextTurn(int i) {
+            int d = code.arg[i];
+            if (now[d] < last[d]) {
+                now[d]++;
+                next = code.more[i];
             }
         }
 

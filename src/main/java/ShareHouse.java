@@ -602,10 +602,10 @@ public final class ShareHouse {
         }
 
         int add(int what, int value, int where) {
-            return add(what, value, where, 0);
+            return addWith(what, value, where, 0);
         }
 
-        int add(int what, int value, int where, int besides) {
+        int addWith(int what, int value, int where, int besides) {
             op = fit(op, size + 1);
             arg = fit(arg, size + 1);
             at = fit(at, size + 1);
@@ -912,8 +912,9 @@ public final class ShareHouse {
             }
             expect(')');
             expect(':');
-            names.sort[d] = takeSort();
+            int sort = takeSort();
             expect('=');
+            names.sort[d] = sort;
             names.base[d] = code.size;
             int from = words.start;
             readExpr(0);
@@ -1040,7 +1041,7 @@ public final class ShareHouse {
             code.add(Code.BOUND, 0, last);
             int head = code.add(Code.FOR, d, from);
             readBlock(depth);
-            code.add(Code.NEXT, d, from, head + 1);
+            code.addWith(Code.NEXT, d, from, head + 1);
             code.more[head] = code.size;
         }
 
@@ -1090,7 +1091,7 @@ public final class ShareHouse {
         private void settle(int bottom, int rank) {
             while (waits > bottom && Code.rank(waiting[waits - 1]) >= rank) {
                 waits--;
-                code.add(waiting[waits], 0, waitingAt[waits], waitingRight[waits]);
+                code.addWith(waiting[waits], 0, waitingAt[waits], waitingRight[waits]);
             }
         }
 
@@ -1190,7 +1191,7 @@ public final class ShareHouse {
             for (boolean another = words.kind != ')'; another && count < MOST_TEXT; count++) {
                 int from = words.start;
                 readExpr(depth + 1);
-                code.add(Code.ARGUMENT, head, from, count);
+                code.addWith(Code.ARGUMENT, head, from, count);
                 another = code.fault == 0 && words.kind == ',';
                 if (another) {
                     words.advance();
@@ -1705,7 +1706,7 @@ public final class ShareHouse {
             return outputFrom[outputs];
         }
 
-        int outputLiteral(int i) {
+        int anyOutputLiteral(int i) {
             return outputLiterals[i];
         }
 
@@ -2404,7 +2405,7 @@ public final class ShareHouse {
      */
     private static final class Dealer {
         private final int parties;
-        private final byte[] told = new byte[MOST_DRAWS];
+        private final byte[] queue = new byte[MOST_DRAWS];
         int waiting;
         private int used;
         int seed = 1;
@@ -2419,14 +2420,14 @@ public final class ShareHouse {
 
         int keep(long bits, int n) {
             for (int i = 0; i < n && waiting < MOST_DRAWS; i++) {
-                told[waiting] = (byte) (bits >>> i & 1);
+                queue[waiting] = (byte) (bits >>> i & 1);
                 waiting++;
             }
             return waiting;
         }
 
         void forgetUsed() {
-            System.arraycopy(told, used, told, 0, waiting - used);
+            System.arraycopy(queue, used, queue, 0, waiting - used);
             waiting -= used;
             used = 0;
         }
@@ -2434,7 +2435,7 @@ public final class ShareHouse {
         private int draw() {
             if (used < waiting) {
                 used++;
-                return told[used - 1];
+                return queue[used - 1];
             }
             seed = seed * 1103515245 + 12345;
             return seed >>> 16 & 1;
@@ -2624,7 +2625,7 @@ public final class ShareHouse {
                 return dealer.shares[inputs.wireOf(from(m), i)] >> to(m) & 1;
             }
             if (r > circuit.depth) {
-                return dealer.sharesOf(circuit.outputLiteral(i)) >> from(m) & 1;
+                return dealer.sharesOf(circuit.anyOutputLiteral(i)) >> from(m) & 1;
             }
             int g = circuit.andOfLevel(r, i / 2);
             int which = i & 1;
@@ -2643,7 +2644,7 @@ public final class ShareHouse {
             }
             int left = i - own;
             int others = parties - 1;
-            if (left < own * others) {
+            if (others > 0 && left < own * others) {
                 int q = left % others;
                 return dealer.shares[inputs.wireOf(p, left / others)] >> (q < p ? q : q + 1) & 1;
             }

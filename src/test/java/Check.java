@@ -26,6 +26,17 @@ final class Check {
         return same(what, is ? 1 : 0, 1);
     }
 
+    /** The Oracle goes over its trees by calls in one another: these need room. */
+    void inDeepThread(Runnable work) throws InterruptedException {
+        Thread thread = new Thread(null, work, name, 1L << 29);
+        thread.setUncaughtExceptionHandler((t, e) -> {
+            e.printStackTrace();
+            holds("no exception", false);
+        });
+        thread.start();
+        thread.join();
+    }
+
     int wrong() {
         return wrong;
     }

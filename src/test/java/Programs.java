@@ -283,11 +283,7 @@ final class Programs {
                 text.append(")");
                 break;
             case 1:
-                expr(true, depth - 2);
-                text.append("?");
-                expr(wanted, depth - 1);
-                text.append(":");
-                expr(wanted, depth - 1);
+                choice(wanted, depth);
                 break;
             case 2:
                 text.append(wanted ? "!" : random.nextBoolean() ? "-" : "~");
@@ -308,6 +304,18 @@ final class Programs {
                 binary(wanted, depth);
                 break;
         }
+    }
+
+    /** Mostly in ( ): bare, it takes its neighbours in and is seldom sound. */
+    private void choice(boolean bit, int depth) {
+        boolean bare = random.nextInt(6) == 0;
+        text.append(bare ? "" : "(");
+        expr(true, depth - 2);
+        text.append("?");
+        expr(bit, depth - 1);
+        text.append(":");
+        expr(bit, depth - 1);
+        text.append(bare ? "" : ")");
     }
 
     private void binary(boolean bit, int depth) {

@@ -27,6 +27,16 @@ public final class ShareHouse {
     private static final int MOST_RUSHED = 100_000;
     private static final long MOST_NUMBER = 4_294_967_295L;
 
+    // What a text can have at most, by the fewest bytes of it: rows are made once, as long as they can ever need to be.
+    // Of a NAME that comes in: for i, def f, a:int.
+    private static final int MOST_NAMES = MOST_TEXT / 5;
+    // Of an output: output 1;
+    private static final int MOST_OUTPUTS = MOST_TEXT / 9;
+    // Of a def: def f():int=1; (none is open twice, as it calls those ahead of it alone).
+    private static final int MOST_CALLS = MOST_TEXT / 14;
+    // Of an EXPR that is worked out and waits for another one: 1+ (beside them the latest one, and one to come).
+    private static final int MOST_WAITING = MOST_TEXT / 2 + 2;
+
     private static final int INT = 0;
     private static final int BIT = 1;
 
@@ -61,11 +71,11 @@ public final class ShareHouse {
         code = new Code();
         names = new Names(tape);
         inputs = new Inputs(this.parties);
-        circuit = new Circuit();
+        circuit = new Circuit(this.width);
         reader = new Reader(tape, code, names, inputs, this.parties, this.width);
         sorts = new Sorts(code, names);
         builder = new Builder(code, names, inputs, circuit, this.width);
-        dealer = new Dealer(this.parties);
+        dealer = new Dealer(this.parties, this.width);
         post = new Post(this.parties, circuit, inputs, dealer);
     }
 
@@ -207,7 +217,7 @@ public final class ShareHouse {
             return false;
         }
         inputs.fix();
-        dealer.cutInputs(inputs, circuit.wires());
+        dealer.cutInputs(inputs);
         dealer.cutTriples(circuit.ands);
         dealer.forgetUsed();
         dealer.workShares(circuit);
@@ -279,7 +289,7 @@ public final class ShareHouse {
         if (!isAtWork(p) || wire < 0 || wire >= circuit.wires() || circuit.levelOf(2 * wire) >= post.at[p]) {
             return NONE;
         }
-        return dealer.shares[wire] >> p & 1;
+        return dealer.sharesOf(2 * wire) >> p & 1;
     }
 
     public int view(int p, int i) {
@@ -357,11 +367,6 @@ public final class ShareHouse {
 
     private static int parity(int bits) {
         return Integer.bitCount(bits) & 1;
-    }
-
-    /** Long enough a row: the same one as long as it does, so that all calls of an object share few rows. */
-    private static int[] fit(int[] row, int need) {
-        return need <= row.length ? row : Arrays.copyOf(row, Math.max(need, 2 * row.length));
     }
 
     /** The text's words, one at a time. */
@@ -587,10 +592,12 @@ public final class ShareHouse {
         static final int HIGHEST_RANK = 10;
         private static final int[] RANKS = {1, 2, 3, 4, 5, 6, 6, 7, 7, 7, 7, 8, 8, 9, 9, 10, 10, 10};
 
-        int[] op = new int[64];
-        int[] arg = new int[64];
-        int[] at = new int[64];
-        int[] more = new int[64];
+        // Each instruction has a byte of its words for itself (f(1) has four: at f, 1, the ( and the ) ), so that there
+        // are no more of them than bytes.
+        final int[] op = new int[MOST_TEXT];
+        final int[] arg = new int[MOST_TEXT];
+        final int[] at = new int[MOST_TEXT];
+        final int[] more = new int[MOST_TEXT];
         int size;
         int fault;
         int place = NONE;
@@ -605,11 +612,11 @@ public final class ShareHouse {
             return addWith(what, value, where, 0);
         }
 
+        /** Behind a FAULT nothing is noted: then the first one stands for what is not there. */
         int addWith(int what, int value, int where, int besides) {
-            op = fit(op, size + 1);
-            arg = fit(arg, size + 1);
-            at = fit(at, size + 1);
-            more = fit(more, size + 1);
+            if (fault != 0 || size >= MOST_TEXT) {
+                return 0;
+            }
             op[size] = what;
             arg[size] = value;
             at[size] = where;
@@ -682,17 +689,17 @@ public final class ShareHouse {
 
         private final byte[] text;
         private int length;
-        private int[] start = new int[16];
-        private int[] stop = new int[16];
-        int[] kind = new int[16];
-        int[] sort = new int[16];
-        int[] size = new int[16];
+        private final int[] start = new int[MOST_NAMES];
+        private final int[] stop = new int[MOST_NAMES];
+        final int[] kind = new int[MOST_NAMES];
+        final int[] sort = new int[MOST_NAMES];
+        final int[] size = new int[MOST_NAMES];
         /** The first of its words; of a PARAM its number, of a def where its EXPR begins. */
-        int[] base = new int[16];
+        final int[] base = new int[MOST_NAMES];
         /** How many PARAMs a def has. */
-        int[] params = new int[16];
+        final int[] params = new int[MOST_NAMES];
         int declared;
-        private int[] visible = new int[16];
+        private final int[] visible = new int[MOST_NAMES];
         int shown;
         private int floor;
 
@@ -708,14 +715,9 @@ public final class ShareHouse {
         }
 
         int add(int what, int place, int itsSort, int itsSize, int itsBase) {
-            int need = declared + 1;
-            start = fit(start, need);
-            stop = fit(stop, need);
-            kind = fit(kind, need);
-            sort = fit(sort, need);
-            size = fit(size, need);
-            base = fit(base, need);
-            params = fit(params, need);
+            if (declared >= MOST_NAMES) {
+                return 0;
+            }
             start[declared] = place;
             stop[declared] = stopOf(place);
             kind[declared] = what;
@@ -735,8 +737,9 @@ public final class ShareHouse {
         }
 
         void show(int d) {
-            visible = fit(visible, shown + 1);
-            visible[shown++] = d;
+            if (shown < MOST_NAMES) {
+                visible[shown++] = d;
+            }
         }
 
         void hideFrom(int mark) {
@@ -900,6 +903,9 @@ public final class ShareHouse {
         private void readDef() {
             words.advance();
             int name = takeName();
+            if (code.fault != 0) {
+                return;
+            }
             int d = names.add(Names.DEF, name, INT, 0, 0);
             int head = code.add(Code.DEF, d, name);
             expect('(');
@@ -927,8 +933,10 @@ public final class ShareHouse {
             int name = takeName();
             expect(':');
             int sort = takeSort();
-            code.add(Code.PARAM, names.add(Names.PARAM, name, sort, 0, names.params[d]), name);
-            names.params[d]++;
+            if (code.fault == 0) {
+                code.add(Code.PARAM, names.add(Names.PARAM, name, sort, 0, names.params[d]), name);
+                names.params[d]++;
+            }
         }
 
         private void readOutput() {
@@ -1029,6 +1037,9 @@ public final class ShareHouse {
             code.add(Code.BEGIN, 0, from);
             words.advance();
             int name = takeName();
+            if (code.fault != 0) {
+                return;
+            }
             int d = names.add(Names.LOOP, name, INT, 0, 0);
             code.add(Code.LOOP_NAME, d, name);
             expect('=');
@@ -1284,7 +1295,7 @@ public final class ShareHouse {
         private final Code code;
         private final Names names;
         /** Of each EXPR that is not used up yet its SORT, and PUBLIC if it is. */
-        private int[] held = new int[16];
+        private final int[] held = new int[(MOST_NESTED + 1) * (Code.HIGHEST_RANK + 2)];
         private int top;
         private final int[] scopes = new int[MOST_NESTED + 1];
         private int open;
@@ -1538,8 +1549,9 @@ public final class ShareHouse {
         }
 
         private void push(int x) {
-            held = fit(held, top + 1);
-            held[top++] = x;
+            if (top < held.length) {
+                held[top++] = x;
+            }
         }
 
         private int pop() {
@@ -1599,32 +1611,32 @@ public final class ShareHouse {
 
     /** The GATES, by LITERALS: twice the wire, and 1 if it is turned. */
     private static final class Circuit {
-        int[] first = new int[0];
-        int[] second = new int[0];
-        int[] level = new int[0];
+        final int[] first = new int[MOST_GATES];
+        final int[] second = new int[MOST_GATES];
+        final int[] level = new int[MOST_GATES];
         /** Of an AND which one it is, of an XOR none. */
-        int[] number = new int[0];
+        final int[] number = new int[MOST_GATES];
         int gates;
         int ands;
         int depth;
         /** There was no room for a GATE. */
         boolean full;
         private int inputWires;
-        /** The GATES that are ANDs, as they come, and by their LEVELS. */
-        int[] andGate = new int[0];
-        private int[] byLevel = new int[0];
-        private int[] levelFrom = new int[0];
+        /** The GATES that are ANDs, by their LEVELS. */
+        private final int[] byLevel = new int[MOST_GATES];
+        private final int[] levelFrom = new int[MOST_LEVEL + 3];
         int outputs;
-        private int[] outputFrom = new int[8];
-        private int[] outputLiterals = new int[64];
+        private final int[] outputFrom = new int[MOST_OUTPUTS + 1];
+        private final int[] outputLiterals;
         /** What each wire is in the clear. */
-        private int[] values = new int[0];
+        private final int[] values;
+
+        Circuit(int width) {
+            outputLiterals = new int[MOST_OUTPUTS * width];
+            values = new int[MOST_WORDS * width + MOST_GATES];
+        }
 
         void clear(int wires) {
-            first = fit(first, MOST_GATES);
-            second = fit(second, MOST_GATES);
-            level = fit(level, MOST_GATES);
-            number = fit(number, MOST_GATES);
             inputWires = wires;
             gates = 0;
             ands = 0;
@@ -1672,7 +1684,7 @@ public final class ShareHouse {
 
         private int newGate(int x, int y, boolean isAnd, int itsLevel) {
             full = full || gates >= MOST_GATES || itsLevel > MOST_LEVEL;
-            if (full || gates >= first.length) {
+            if (full) {
                 return ZERO;
             }
             first[gates] = x;
@@ -1686,9 +1698,10 @@ public final class ShareHouse {
         }
 
         void addOutput(int[] row, int from, int bits) {
+            if (outputs >= MOST_OUTPUTS || outputFrom[outputs] + bits > outputLiterals.length) {
+                return;
+            }
             int begin = outputFrom[outputs];
-            outputLiterals = fit(outputLiterals, begin + bits);
-            outputFrom = fit(outputFrom, outputs + 2);
             System.arraycopy(row, from, outputLiterals, begin, bits);
             outputs++;
             outputFrom[outputs] = begin + bits;
@@ -1712,23 +1725,21 @@ public final class ShareHouse {
 
         /** Sorts the ANDs by LEVELS, those of one as they come. */
         void finish() {
-            andGate = fit(andGate, ands);
-            byLevel = fit(byLevel, ands);
-            levelFrom = fit(levelFrom, depth + 3);
             Arrays.fill(levelFrom, 0);
             for (int g = 0; g < gates; g++) {
                 if (number[g] != NONE) {
-                    andGate[number[g]] = g;
                     levelFrom[level[g] + 2]++;
                 }
             }
-            for (int r = 1; r < depth + 3; r++) {
+            for (int r = 1; r < levelFrom.length; r++) {
                 levelFrom[r] += levelFrom[r - 1];
             }
-            for (int n = 0; n < ands; n++) {
-                int next = level[andGate[n]] + 1;
-                byLevel[levelFrom[next]] = andGate[n];
-                levelFrom[next]++;
+            for (int g = 0; g < gates; g++) {
+                if (number[g] != NONE) {
+                    int next = level[g] + 1;
+                    byLevel[levelFrom[next]] = g;
+                    levelFrom[next]++;
+                }
             }
         }
 
@@ -1742,7 +1753,6 @@ public final class ShareHouse {
 
         /** Works all wires out in the clear, which tells what the PROGRAM means of these inputs. */
         void work(Inputs inputs, boolean asDealt) {
-            values = fit(values, wires());
             for (int w = 0; w < inputs.words; w++) {
                 int value = asDealt ? inputs.fixed[w] : inputs.value[w];
                 for (int j = 0; j < inputs.bits[w]; j++) {
@@ -1757,7 +1767,7 @@ public final class ShareHouse {
         }
 
         int clearOf(int x) {
-            return x < 0 ? x & 1 : values[x >> 1] ^ x & 1;
+            return x < 0 || x >> 1 >= values.length ? x & 1 : values[x >> 1] ^ x & 1;
         }
     }
 
@@ -1958,6 +1968,13 @@ public final class ShareHouse {
         // Far above what 100,000 STEPS can lead to: even loops with empty BLOCKs take no ten millions.
         private static final int MOST_INSTRUCTIONS = 100_000_000;
 
+        // How many EXPRs each instruction takes from the stack, by its number (a call: as many as it has, an if: besides
+        // what it keeps).
+        private static final int[] TAKES = {
+            0, 0, 0, 0, 0, 1, 0, 1, 0, 0, 1, 0, 2, 1, 1, 1, 1, 0, 0, 2, 0,
+            0, 0, 0, 0, 0, 1, 1, 0, 1, 0, 1, 1, 2,
+            1, 1, 1, 3, 2, 2, 2, 2, 2, 2, 2, 2, 2, 2, 2, 2, 2, 2, 2, 2, 2, 2};
+
         private final Code code;
         private final Names names;
         private final Inputs inputs;
@@ -1966,15 +1983,15 @@ public final class ShareHouse {
         private final int width;
         private final int[] sum;
         /** EXPRs that are not used up yet, each as wide as a word, and what the open ifs keep of the vars. */
-        private int[] stack = new int[0];
+        private final int[] stack;
         private int top;
-        private int[] vars = new int[0];
-        private int[] returns = new int[16];
-        private int[] frames = new int[16];
+        private final int[] vars;
+        private final int[] returns = new int[MOST_CALLS];
+        private final int[] frames = new int[MOST_CALLS];
         private int calls;
         private int frame;
-        private long[] now = new long[16];
-        private long[] last = new long[16];
+        private final long[] now = new long[MOST_NAMES];
+        private final long[] last = new long[MOST_NAMES];
         private int next;
         private int here;
         int steps;
@@ -1987,15 +2004,12 @@ public final class ShareHouse {
             this.width = width;
             logic = new Logic(circuit, width);
             sum = new int[width];
+            stack = new int[(MOST_WAITING + MOST_NESTED * MOST_WORDS) * width];
+            vars = new int[MOST_WORDS * width];
         }
 
         void build() {
-            vars = fit(vars, MOST_WORDS * width);
             Arrays.fill(vars, ZERO);
-            if (now.length < names.declared) {
-                now = new long[2 * names.declared];
-                last = new long[2 * names.declared];
-            }
             top = 0;
             calls = 0;
             frame = 0;
@@ -2005,6 +2019,9 @@ public final class ShareHouse {
                 int i = next;
                 next++;
                 int op = code.op[i];
+                if (!finds(op)) {
+                    return;
+                }
                 if (op <= Code.LAST_STATEMENT) {
                     buildStatement(i, op);
                 } else if (op <= Code.LAST_FACTOR) {
@@ -2018,6 +2035,11 @@ public final class ShareHouse {
                     code.tell(8, here);
                 }
             }
+        }
+
+        /** Whether the stack has what the instruction takes, and room for an EXPR more: the rows' sizes promise it. */
+        private boolean finds(int op) {
+            return op >= 0 && op < TAKES.length && top >= TAKES[op] * width && top + width <= stack.length;
         }
 
         private void buildStatement(int i, int op) {
@@ -2303,7 +2325,6 @@ public final class ShareHouse {
                 pushNumber(now[d]);
                 return;
             }
-            reserve(width);
             if (names.kind[d] == Names.PARAM) {
                 System.arraycopy(stack, frame + names.base[d] * width, stack, top, width);
             } else {
@@ -2313,19 +2334,15 @@ public final class ShareHouse {
         }
 
         private void pushNumber(long number) {
-            reserve(width);
             logic.put(stack, top, number);
             top += width;
         }
 
-        private void reserve(int more) {
-            stack = fit(stack, top + more);
-        }
-
         /** The EXPRs of a call stay where they are while its def is worked out. */
         private void call(int d) {
-            returns = fit(returns, calls + 1);
-            frames = fit(frames, calls + 1);
+            if (calls >= MOST_CALLS || top < names.params[d] * width) {
+                return;
+            }
             returns[calls] = next;
             frames[calls] = frame;
             calls++;
@@ -2338,7 +2355,6 @@ public final class ShareHouse {
                 return;
             }
             calls--;
-            reserve(width);
             System.arraycopy(stack, top - width, stack, frame, width);
             top = frame + width;
             frame = frames[calls];
@@ -2347,8 +2363,11 @@ public final class ShareHouse {
 
         private void openIf(int head) {
             int size = code.more[head] * width;
-            reserve(size);
-            System.arraycopy(vars, code.arg[head] * width, stack, top, size);
+            int from = code.arg[head] * width;
+            if (from + size > vars.length || top + size > stack.length) {
+                return;
+            }
+            System.arraycopy(vars, from, stack, top, size);
             top += size;
         }
 
@@ -2356,6 +2375,9 @@ public final class ShareHouse {
         private void turnIf(int head) {
             int size = code.more[head] * width;
             int from = code.arg[head] * width;
+            if (from + size > vars.length || top < size) {
+                return;
+            }
             for (int i = 0; i < size; i++) {
                 int kept = stack[top - size + i];
                 stack[top - size + i] = vars[from + i];
@@ -2366,6 +2388,9 @@ public final class ShareHouse {
         private void closeIf(int head) {
             int size = code.more[head] * width;
             int from = code.arg[head] * width;
+            if (from + size > vars.length || top < size + width) {
+                return;
+            }
             top -= size + width;
             int condition = stack[top];
             for (int i = 0; i < size; i++) {
@@ -2409,13 +2434,14 @@ public final class ShareHouse {
         int waiting;
         private int used;
         int seed = 1;
-        int[] shares = new int[0];
-        private int[] a = new int[0];
-        private int[] b = new int[0];
-        private int[] c = new int[0];
+        private final int[] shares;
+        private final int[] a = new int[MOST_GATES];
+        private final int[] b = new int[MOST_GATES];
+        private final int[] c = new int[MOST_GATES];
 
-        Dealer(int parties) {
+        Dealer(int parties, int width) {
             this.parties = parties;
+            shares = new int[MOST_WORDS * width + MOST_GATES];
         }
 
         int keep(long bits, int n) {
@@ -2452,8 +2478,7 @@ public final class ShareHouse {
             return drawn;
         }
 
-        void cutInputs(Inputs inputs, int wires) {
-            shares = fit(shares, wires);
+        void cutInputs(Inputs inputs) {
             for (int w = 0; w < inputs.words; w++) {
                 int party = inputs.owner[w];
                 for (int j = 0; j < inputs.bits[w]; j++) {
@@ -2465,10 +2490,7 @@ public final class ShareHouse {
         }
 
         void cutTriples(int ands) {
-            a = fit(a, ands);
-            b = fit(b, ands);
-            c = fit(c, ands);
-            for (int n = 0; n < ands; n++) {
+            for (int n = 0; n < ands && n < MOST_GATES; n++) {
                 a[n] = drawBut(NONE);
                 b[n] = drawBut(NONE);
                 int others = drawBut(0);
@@ -2492,12 +2514,12 @@ public final class ShareHouse {
 
         /** Party 0, the lowest bit, is the one that turns its share and has that of a CONSTANT. */
         int sharesOf(int x) {
-            return x < 0 ? x & 1 : shares[x >> 1] ^ x & 1;
+            return x < 0 || x >> 1 >= shares.length ? x & 1 : shares[x >> 1] ^ x & 1;
         }
 
         int tripleBit(int n, int which, int party) {
             int[] row = which == 0 ? a : which == 1 ? b : c;
-            return row[n] >> party & 1;
+            return n < 0 || n >= MOST_GATES ? 0 : row[n] >> party & 1;
         }
     }
 
@@ -2517,8 +2539,8 @@ public final class ShareHouse {
         int flying;
         int delivered;
         int done;
-        private int[] log = new int[0];
-        private int logOfOne;
+        private final int[] log;
+        private final int logOfOne;
 
         Post(int parties, Circuit circuit, Inputs inputs, Dealer dealer) {
             this.parties = parties;
@@ -2531,6 +2553,8 @@ public final class ShareHouse {
             came = new int[parties];
             cameEarly = new int[parties];
             flight = new int[2 * parties * (parties - 1)];
+            logOfOne = (parties - 1) * (MOST_LEVEL + 2);
+            log = new int[parties * logOfOne];
         }
 
         static int from(int m) {
@@ -2546,8 +2570,6 @@ public final class ShareHouse {
         }
 
         void begin() {
-            logOfOne = (parties - 1) * (circuit.depth + 2);
-            log = fit(log, parties * logOfOne);
             Arrays.fill(at, 0);
             Arrays.fill(arrived, 0);
             Arrays.fill(arrivedBits, 0);
@@ -2622,7 +2644,7 @@ public final class ShareHouse {
         int bitOf(int m, int i) {
             int r = round(m);
             if (r == 0) {
-                return dealer.shares[inputs.wireOf(from(m), i)] >> to(m) & 1;
+                return dealer.sharesOf(2 * inputs.wireOf(from(m), i)) >> to(m) & 1;
             }
             if (r > circuit.depth) {
                 return dealer.sharesOf(circuit.anyOutputLiteral(i)) >> from(m) & 1;
@@ -2640,13 +2662,13 @@ public final class ShareHouse {
         int viewBit(int p, int i) {
             int own = inputs.own[p];
             if (i < own) {
-                return parity(dealer.shares[inputs.wireOf(p, i)]);
+                return parity(dealer.sharesOf(2 * inputs.wireOf(p, i)));
             }
             int left = i - own;
             int others = parties - 1;
             if (others > 0 && left < own * others) {
                 int q = left % others;
-                return dealer.shares[inputs.wireOf(p, left / others)] >> (q < p ? q : q + 1) & 1;
+                return dealer.sharesOf(2 * inputs.wireOf(p, left / others)) >> (q < p ? q : q + 1) & 1;
             }
             left -= own * others;
             if (left < 3 * circuit.ands) {

@@ -51,7 +51,7 @@ public final class LanguageTest {
                 .contains(imports.group(1)));
         }
         none(bare, "\\bSystem\\.(?!arraycopy\\b)");
-        none(bare, "\\bArrays\\.(?!(fill|copyOf|copyOfRange)\\b)");
+        none(bare, "\\bArrays\\.(?!fill\\b)");
         none(bare, "\\b(Math|Integer|Long)\\.\\w*Exact\\b");
         none(bare, "\\b(Object|Random|Thread|Runtime|Map|HashMap|Set|Optional|Stream|Exception|Error)\\b");
     }
@@ -98,6 +98,10 @@ public final class LanguageTest {
             CHECK.holds(m.group(3) + " has " + (end - i + 1) + " lines", end - i < MOST_LINES);
             int parameters = m.group(4).isEmpty() ? 0 : m.group(4).split(",").length;
             CHECK.holds(m.group(3) + " has " + parameters + " parameters", parameters <= 7);
+            // A constructor's name is a class's: rows are made there, and no call makes any.
+            String body = String.join("\n", List.of(lines).subList(i, Math.min(lines.length, end + 1)));
+            CHECK.holds(m.group(3) + " makes nothing", Character.isUpperCase(m.group(3).charAt(0))
+                || !Pattern.compile("\\bnew\\b|\\bcopyOf|\\bclone\\b").matcher(body).find());
             CHECK.holds(m.group(3) + " bears no public name",
                 m.group(2).startsWith("public ") || !FACE.contains(m.group(3)));
         }

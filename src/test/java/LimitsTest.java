@@ -14,6 +14,8 @@ public final class LimitsTest {
             longChains();
             largeArrays();
             deepBlocks();
+            fullRows();
+            deepestDeal();
         });
         CHECK.end();
     }
@@ -134,5 +136,61 @@ public final class LimitsTest {
             chain.append("else if(a==").append(i).append("){v=").append(i * i).append(";}");
         }
         due(2, 7, 0, chain + "else{v=a;}output v;");
+    }
+
+    /** One object for all of them: what one leaves behind in the rows must not matter for the next one. */
+    private static void fullRows() {
+        Beside largest = new Beside(CHECK, new Random(9), 16, 32);
+        Beside smallest = new Beside(CHECK, new Random(3), 2, 1);
+        Largest.sound().forEach((name, text) -> {
+            CHECK.same(name, largest.compare(text), 0);
+            smallest.compare(text);
+        });
+        Largest.faulty().forEach((name, text) -> {
+            CHECK.holds(name, largest.compare(text) > 0);
+            smallest.compare(text);
+        });
+        CHECK.same("nothing", largest.compare(""), 0);
+    }
+
+    /** As many messages as there can be: no row of theirs is too short for the last of them. */
+    private static void deepestDeal() {
+        ShareHouse house = Check.built(16, 32, Largest.circuit());
+        for (int by : new int[] {0, 7, Integer.MAX_VALUE}) {
+            CHECK.holds("deal", house.deal());
+            for (int k = 0; k < 4; k++) {
+                CHECK.same("rush", house.rush(100_000, by), 100_000);
+            }
+            CHECK.same("rush", house.rush(100_000, by), 16 * 15 * 2002 - 400_000);
+            CHECK.same("rush", house.rush(100_000, by), 0);
+            CHECK.same("look(10)", house.look(10), 16 * 15 * 2002);
+            CHECK.same("look(11)", house.look(11), 16);
+            for (int p = 0; p < 16; p++) {
+                CHECK.same("party(" + p + ", 1)", house.party(p, 1), 15 * 2002);
+                for (int k = 0; k < 3; k++) {
+                    CHECK.same("told(" + p + ", " + k + ")", house.told(p, k), house.truth(k));
+                }
+            }
+        }
+        house.deal();
+        house.rush(100_000, 0);
+        for (int k = 0; k < 4; k++) {
+            house.rush(100_000, 0);
+        }
+        for (int p = 0; p < 16; p++) {
+            lastRound(house, p, house.literal(0, 0));
+        }
+    }
+
+    /** The first bits of the messages of the last round and one's own share make the first output's bit. */
+    private static void lastRound(ShareHouse house, int p, int literal) {
+        int bits = 1 + 32 + 32;
+        int first = house.party(p, 2) - 15 * bits;
+        int all = house.share(p, literal / 2) ^ (p == 0 ? literal & 1 : 0);
+        for (int q = 0; q < 15; q++) {
+            all ^= house.view(p, first + q * bits);
+        }
+        CHECK.same("bits of the last round to " + p, all, house.told(p, 0));
+        CHECK.same("view(" + p + ", end)", house.view(p, first + 15 * bits), -1);
     }
 }

@@ -1708,11 +1708,11 @@ public final class ShareHouse {
         }
 
         int outputBits(int k) {
-            return outputFrom[k + 1] - outputFrom[k];
+            return k < 0 || k >= outputs ? 0 : outputFrom[k + 1] - outputFrom[k];
         }
 
         int outputLiteral(int k, int j) {
-            return outputLiterals[outputFrom[k] + j];
+            return j < 0 || j >= outputBits(k) ? ZERO : outputLiterals[outputFrom[k] + j];
         }
 
         int allOutputBits() {
@@ -1720,14 +1720,14 @@ public final class ShareHouse {
         }
 
         int anyOutputLiteral(int i) {
-            return outputLiterals[i];
+            return i < 0 || i >= allOutputBits() ? ZERO : outputLiterals[i];
         }
 
         /** Sorts the ANDs by LEVELS, those of one as they come. */
         void finish() {
             Arrays.fill(levelFrom, 0);
             for (int g = 0; g < gates; g++) {
-                if (number[g] != NONE) {
+                if (number[g] != NONE && level[g] + 2 < levelFrom.length) {
                     levelFrom[level[g] + 2]++;
                 }
             }
@@ -1735,8 +1735,8 @@ public final class ShareHouse {
                 levelFrom[r] += levelFrom[r - 1];
             }
             for (int g = 0; g < gates; g++) {
-                if (number[g] != NONE) {
-                    int next = level[g] + 1;
+                int next = level[g] + 1;
+                if (number[g] != NONE && next < levelFrom.length && levelFrom[next] < MOST_GATES) {
                     byLevel[levelFrom[next]] = g;
                     levelFrom[next]++;
                 }
@@ -1744,22 +1744,22 @@ public final class ShareHouse {
         }
 
         int andsOfLevel(int r) {
-            return levelFrom[r + 1] - levelFrom[r];
+            return r < 0 || r > MOST_LEVEL ? 0 : levelFrom[r + 1] - levelFrom[r];
         }
 
         int andOfLevel(int r, int i) {
-            return byLevel[levelFrom[r] + i];
+            return i < 0 || i >= andsOfLevel(r) ? 0 : byLevel[levelFrom[r] + i];
         }
 
         /** Works all wires out in the clear, which tells what the PROGRAM means of these inputs. */
         void work(Inputs inputs, boolean asDealt) {
             for (int w = 0; w < inputs.words; w++) {
                 int value = asDealt ? inputs.fixed[w] : inputs.value[w];
-                for (int j = 0; j < inputs.bits[w]; j++) {
+                for (int j = 0; j < inputs.bits[w] && inputs.wire[w] + j < values.length; j++) {
                     values[inputs.wire[w] + j] = value >>> j & 1;
                 }
             }
-            for (int g = 0; g < gates; g++) {
+            for (int g = 0; g < gates && inputWires + g < values.length; g++) {
                 int x = clearOf(first[g]);
                 int y = clearOf(second[g]);
                 values[inputWires + g] = number[g] == NONE ? x ^ y : x & y;
@@ -2400,6 +2400,9 @@ public final class ShareHouse {
 
         private void beginLoop(int i) {
             int d = code.arg[i];
+            if (d < 0 || d >= MOST_NAMES) {
+                return;
+            }
             top -= 2 * width;
             now[d] = logic.number(stack, top);
             last[d] = logic.number(stack, top + width);
@@ -2412,7 +2415,7 @@ public final class ShareHouse {
 
         private void takeNextTurn(int i) {
             int d = code.arg[i];
-            if (now[d] < last[d]) {
+            if (d >= 0 && d < MOST_NAMES && now[d] < last[d]) {
                 now[d]++;
                 next = code.more[i];
             }
@@ -2481,7 +2484,7 @@ public final class ShareHouse {
         void cutInputs(Inputs inputs) {
             for (int w = 0; w < inputs.words; w++) {
                 int party = inputs.owner[w];
-                for (int j = 0; j < inputs.bits[w]; j++) {
+                for (int j = 0; j < inputs.bits[w] && inputs.wire[w] + j < shares.length; j++) {
                     int others = drawBut(party);
                     int own = parity(others) ^ inputs.fixed[w] >>> j & 1;
                     shares[inputs.wire[w] + j] = others | own << party;
@@ -2500,15 +2503,17 @@ public final class ShareHouse {
 
         void workShares(Circuit circuit) {
             int wire = circuit.wires() - circuit.gates;
-            for (int g = 0; g < circuit.gates; g++) {
+            for (int g = 0; g < circuit.gates && wire + g < shares.length; g++) {
                 int x = sharesOf(circuit.first[g]);
                 int y = sharesOf(circuit.second[g]);
                 int n = circuit.number[g];
-                shares[wire + g] = n == NONE ? x ^ y : sharesOfAnd(n, parity(x ^ a[n]), parity(y ^ b[n]));
+                shares[wire + g] = n < 0 || n >= MOST_GATES ? x ^ y : sharesOfAnd(n, x, y);
             }
         }
 
-        private int sharesOfAnd(int n, int d, int e) {
+        private int sharesOfAnd(int n, int x, int y) {
+            int d = parity(x ^ a[n]);
+            int e = parity(y ^ b[n]);
             return c[n] ^ -d & b[n] ^ -e & a[n] ^ d & e;
         }
 

@@ -1084,10 +1084,10 @@ public final class ShareHouse {
         private void readChoice(int depth) {
             int bottom = waits;
             readFactor(depth);
-            for (int n = 0; n < MOST_TEXT && code.fault == 0 && waits < waiting.length; n++) {
+            for (int n = 0; n < MOST_TEXT && code.fault == 0; n++) {
                 int operator = Code.operatorOf(words.kind);
                 settle(bottom, Code.rank(operator));
-                if (operator == NONE) {
+                if (operator == NONE || waits >= waiting.length) {
                     return;
                 }
                 waiting[waits] = operator;

@@ -5,6 +5,8 @@ import java.util.Map;
 final class Largest {
     private static final int TAPE = 4000;
     private static final String FIRST = "abcdefghijklmnopqrstuvwxyzABCDEFGHIJKLMNOPQRSTUVWXYZ_";
+    // An operator of each row, all of which wait for what stands behind the last one.
+    private static final String TEN_ROWS = "true||true&&true|true^true&true==1<1<<0+0*";
     // The first and the last of 256 words: what is assigned to both may be all of them.
     private static final String ALL_WORDS =
         "input k of 0:int;var a:int;var b:int[64];var c:int[64];var d:int[64];var e:int[62];var z:int;";
@@ -34,6 +36,11 @@ final class Largest {
         texts.put("ifs behind else", elseIfs());
         texts.put("operators in one another",
             "output " + "true||true&&true|true^true&true==1<2<<0*int(".repeat(30) + "true" + ")".repeat(30) + ";");
+        texts.put("ten rows in each", tenRows("int(", 30, TEN_ROWS + "1") + ";");
+        texts.put("ten rows in each, and more of the last", tenRows("int(", 30, TEN_ROWS + "1*1/1%1*1") + ";");
+        texts.put("ten rows in each, and more of all", tenRows("int(", 30, TEN_ROWS + "1+1<<1!=true&" + TEN_ROWS + "1")
+            + ";");
+        texts.put("ten rows in each, and what binds a FACTOR", tenRows("int(", 29, TEN_ROWS + "-1") + ";");
         texts.put("choices", "output " + "true?1:".repeat(30) + "2;");
         texts.put("blanks", filled("", " ", ""));
         texts.put("nothing", "");
@@ -47,6 +54,16 @@ final class Largest {
         texts.put("fault 1 in one another", filled("var x:int;", "x=1;", "x=" + "(".repeat(30)));
         texts.put("fault 2", filled("", "for i=0to 1{}", "var abcdefghijklmnopq"));
         texts.put("fault 3", filled("var x:int;", "x=1;", "x=" + "-".repeat(31) + "1;"));
+        texts.put("fault 1 where ten rows wait in each", tenRows("int(", 30, TEN_ROWS));
+        texts.put("fault 1 behind ten rows in each", tenRows("int(", 30, TEN_ROWS + "1"));
+        texts.put("fault 1 within ten rows in each", tenRows("int(", 30, TEN_ROWS + "1 1"));
+        texts.put("fault 3 behind ten rows in each", tenRows("int(", 31, TEN_ROWS + "1") + ";");
+        texts.put("fault 3 at a ? behind ten rows in each", tenRows("int(", 30, TEN_ROWS + "1?true:true") + ";");
+        texts.put("fault 5 of ten rows in each", tenRows("(", 30, TEN_ROWS + "1") + ";");
+        texts.put("fault 5 of ten rows in each [ ]", "var a:int[9];" + tenRows("a[", 30, TEN_ROWS + "1") + ";");
+        texts.put("fault 5 of ten rows at last", tenRows("int(", 30, TEN_ROWS + "true") + ";");
+        texts.put("fault 6 of ten rows in each call", "def f(b:bit):int=1;" + tenRows("f(", 30, TEN_ROWS + "1") + ";");
+        texts.put("fault 7 of ten rows in each", tenRows("int(", 30, TEN_ROWS + "1+32") + ";");
         texts.put("fault 4", filled("var x:int;", "x=1;", "y=1;"));
         texts.put("fault 5", filled("var x:int;", "x=1;", "x=x;x=!1;"));
         texts.put("fault 6", filled("var x:int;", "x=1;", "x=1<<x;"));
@@ -56,6 +73,12 @@ final class Largest {
         texts.put("many names", filled("def f(", "a:int,", ""));
         texts.put("many ifs", filled("", "if(true){", ""));
         return texts;
+    }
+
+    /** An output without its ; whose EXPR has ten rows of operators waiting around each that lies in it. */
+    private static String tenRows(String opens, int times, String last) {
+        String closes = opens.endsWith("[") ? "]" : ")";
+        return "output " + (TEN_ROWS + opens).repeat(times) + last + closes.repeat(times);
     }
 
     /** All wires that there can be, and LEVEL 2,000. */

@@ -95,7 +95,7 @@ public final class LimitsTest {
         }
         texts.add(params + "):int=" + sum + ";" + call + ");");
         texts.add("output 1;".repeat(444));
-        // Ten operators wait in each of what lies in one another.
+        // Nine operators wait in each of what lies in one another (all ten: Largest).
         texts.add("output " + "true||true&&true|true^true&true==1<2+3*int(".repeat(30) + "true" + ")".repeat(30) + ";");
         texts.add("output " + "1*-".repeat(30) + "1;");
         for (String text : texts) {

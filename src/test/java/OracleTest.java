@@ -26,8 +26,9 @@ public final class OracleTest {
         int width = random.nextInt(3) == 0 ? 1 + random.nextInt(32) : 1 + random.nextInt(9);
         Beside beside = new Beside(CHECK, random, parties, width);
         Programs programs = new Programs(random, parties, width);
+        Deep deep = new Deep(random);
         for (int i = 0; i < 2; i++) {
-            String text = programs.program();
+            String text = random.nextInt(5) == 0 ? deep.program() : programs.program();
             if (random.nextInt(3) == 0) {
                 text = programs.spoiled(text);
             }

@@ -3,7 +3,7 @@ final class Check {
     private static final int MOST_TOLD = 40;
 
     private final String name;
-    private int asked;
+    private long asked;
     private int wrong;
 
     Check(String name) {

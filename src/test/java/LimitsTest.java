@@ -136,6 +136,26 @@ public final class LimitsTest {
             chain.append("else if(a==").append(i).append("){v=").append(i * i).append(";}");
         }
         due(2, 7, 0, chain + "else{v=a;}output v;");
+        deepScopes();
+    }
+
+    /** What comes in within the 30th BLOCK is no more behind it, and what came in ahead of it still is. */
+    private static void deepScopes() {
+        for (String head : new String[] {"if(true){", "if(false){}else{", "for k%=0to 0{"}) {
+            StringBuilder text = new StringBuilder();
+            for (int i = 0; i < 30; i++) {
+                text.append(head.replace("%", "" + i)).append("var v").append(i).append(":int=").append(i).append(";");
+            }
+            String open = text.toString();
+            for (int i = 29; i >= 0; i--) {
+                text.append("v").append(i).append("=1;}var v").append(i).append(":bit;");
+            }
+            due(2, 6, 0, text + "output v0;");
+            String used = open + "}v29=1;" + "}".repeat(29);
+            CHECK.same("look(0)", due(2, 6, 4, used).look(0), open.length() + 1);
+            String again = open + "var v28:bit;" + "}".repeat(30);
+            CHECK.same("look(0)", due(2, 6, 4, again).look(0), open.length() + 4);
+        }
     }
 
     /** One object for all of them: what one leaves behind in the rows must not matter for the next one. */

@@ -1,0 +1,166 @@
+import java.util.ArrayList;
+import java.util.List;
+import java.util.function.Consumer;
+
+/**
+ * Boundary cases: one test for each sentence of the document that names one. A test that fails is told with its
+ * sentence. The arguments of a main method that uses it may name the tests to run; "list" tells the sentences alone.
+ */
+final class Edges {
+    /** Far off, or just beside what there is. */
+    static final int[] WRONG = {-1, -2, -1000, Integer.MIN_VALUE, Integer.MIN_VALUE + 1, Integer.MAX_VALUE,
+        Integer.MAX_VALUE - 3, 1 << 30, 1 << 16};
+
+    private final String name;
+    private final Check check;
+    private final List<String> wanted;
+    private final List<String> broken = new ArrayList<>();
+    private int parties;
+    private int width;
+
+    Edges(String name, String[] wanted) {
+        this.name = name;
+        this.check = new Check(name);
+        this.wanted = List.of(wanted);
+    }
+
+    /** Runs the test of a sentence, which stands in the document word by word. */
+    void of(String key, String sentence, Consumer<Edges> test) {
+        if (wanted.contains("list")) {
+            System.out.println(name + "\t" + key + "\t" + sentence);
+            return;
+        }
+        if (!wanted.isEmpty() && !wanted.contains(key)) {
+            return;
+        }
+        use(2, 8);
+        int before = check.wrong();
+        try {
+            test.accept(this);
+        } catch (RuntimeException | StackOverflowError e) {
+            check.holds(key + " without " + e, false);
+        }
+        if (check.wrong() > before) {
+            broken.add(key);
+            System.out.println(name + ": broken " + key + ": \"" + sentence + "\"");
+        }
+    }
+
+    void end() {
+        if (!wanted.contains("list")) {
+            check.end();
+        }
+    }
+
+    /** The parties and the width of the objects that are made from here on. */
+    void use(int newParties, int newWidth) {
+        parties = newParties;
+        width = newWidth;
+    }
+
+    void same(String call, long got, long due) {
+        check.same(call, got, due);
+    }
+
+    void holds(String what, boolean is) {
+        check.holds(what, is);
+    }
+
+    ShareHouse fresh() {
+        return new ShareHouse(parties, width);
+    }
+
+    ShareHouse built(String text) {
+        return Check.built(parties, width, text);
+    }
+
+    /** All that is in flight comes, whatever comes of it. */
+    static void finish(ShareHouse house) {
+        for (int n = 0; n < 10 && house.look(9) > 0; n++) {
+            house.rush(100_000, 0);
+        }
+    }
+
+    /** The text with an @ where the FAULT is told; a sound one has none. */
+    void due(int fault, String... marked) {
+        for (String text : marked) {
+            int place = text.indexOf('@');
+            dueAt(fault, place, place < 0 ? text : text.substring(0, place) + text.substring(place + 1));
+        }
+    }
+
+    void dueAt(int fault, int place, String text) {
+        ShareHouse house = fresh();
+        String told = shown(text);
+        same("end of " + told, Check.put(house, text), text.length());
+        same("compile of " + told, house.compile(), fault);
+        same("place in " + told, house.look(0), place);
+        same("look(12) of " + told, house.look(12), fault == 0 ? 1 : 0);
+    }
+
+    void sound(String... texts) {
+        due(0, texts);
+    }
+
+    /** What the outputs of a text are, with the inputs given: the truth, and what the first and last party are told. */
+    ShareHouse outcome(String text, int[] inputs, long... due) {
+        ShareHouse house = fresh();
+        if (Check.compile(house, text) != 0) {
+            holds("no fault " + " at " + house.look(0) + " of " + shown(text), false);
+            return house;
+        }
+        for (int w = 0; w < inputs.length; w++) {
+            holds("give(" + w + ") of " + shown(text), house.give(w, inputs[w]));
+        }
+        for (int k = 0; k < due.length; k++) {
+            same("truth(" + k + ") of " + shown(text), house.truth(k), due[k]);
+        }
+        house.deal();
+        finish(house);
+        for (int k = 0; k < due.length; k++) {
+            same("told(0, " + k + ") of " + shown(text), house.told(0, k), due[k]);
+            same("told(last, " + k + ") of " + shown(text), house.told(parties - 1, k), due[k]);
+        }
+        same("outputs of " + shown(text), house.look(6), due.length);
+        return house;
+    }
+
+    void value(String expr, long due) {
+        outcome("output " + expr + ";", new int[0], due);
+    }
+
+    /** Each GATE as its kind (X or A), its LEVEL and its two LITERALS: "A1 0 4". */
+    ShareHouse gates(String text, String... due) {
+        ShareHouse house = fresh();
+        same("compile of " + shown(text), Check.compile(house, text), 0);
+        same("GATES of " + shown(text), house.look(1), due.length);
+        int ands = 0;
+        int depth = 0;
+        for (int g = 0; g < due.length; g++) {
+            String[] parts = due[g].split(" ");
+            int level = Integer.parseInt(parts[0].substring(1));
+            int kind = parts[0].charAt(0) == 'A' ? 1 : 0;
+            ands += kind;
+            depth = Math.max(depth, level);
+            same("kind of gate " + g + " of " + shown(text), house.gate(g, 0), kind);
+            same("LEVEL of gate " + g + " of " + shown(text), house.gate(g, 1), level);
+            same("first of gate " + g + " of " + shown(text), house.gate(g, 2), Integer.parseInt(parts[1]));
+            same("second of gate " + g + " of " + shown(text), house.gate(g, 3), Integer.parseInt(parts[2]));
+        }
+        same("no gate more of " + shown(text), house.gate(due.length, 0), -1);
+        same("ANDs of " + shown(text), house.look(2), ands);
+        same("D of " + shown(text), house.look(3), depth);
+        return house;
+    }
+
+    void literals(ShareHouse house, int k, int... due) {
+        for (int j = 0; j < due.length; j++) {
+            same("literal(" + k + ", " + j + ")", house.literal(k, j), due[j]);
+        }
+        same("literal(" + k + ", " + due.length + ")", house.literal(k, due.length), -3);
+    }
+
+    private static String shown(String text) {
+        return text.length() <= 100 ? text : text.substring(0, 50) + " .. " + text.substring(text.length() - 40);
+    }
+}

@@ -263,6 +263,10 @@ public final class BuildingEdgesTest {
             LEVELS + "@var z:bit=q&&r;", LEVELS + "for k=0to 0{@v=q&&p;}", LEVELS + "@output q?p:r;", LEVELS + "@if(q&&p){}");
         e.sound(LEVELS + "output q&true;output q&q;output q&!q;output q^r;output p&r;output p?q:q;");
         e.same("D", e.built("output 1;").look(3), 0);
+        // And the parties come through as many.
+        ShareHouse x = e.outcome(LEVELS + "output q;output q^r;", new int[] {1, 1}, 1, 0);
+        e.same("messages that came", x.look(10), 2 * 2002);
+        e.outcome(LEVELS + "output q;output q^r;", new int[] {0, 1}, 0, 1);
         e.same("D", e.built("input p of 0:bit;input q of 1:bit;output p^q;").look(3), 0);
     }
 }

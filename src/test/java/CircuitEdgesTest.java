@@ -319,6 +319,13 @@ public final class CircuitEdgesTest {
         e.literals(e.gates("input x of 0:int;output x/0;output x%0;"), 1, 0);
         e.literals(e.gates("input x of 0:int;output x/1;"), 0, 0);
         e.literals(e.gates("input x of 0:int;output x%1;"), 0, -2);
+        // Where S has a bit W that is no CONSTANT it is looked at too.
+        e.use(2, 2);
+        String[] due = {"X0 2 4", "A1 3 4", "X1 6 10", "A2 11 12", "X2 10 14", "X0 8 2", "A3 17 18", "X3 2 20", "A3 17 12",
+            "X0 0 4", "A1 1 4", "X1 6 28", "X3 22 30", "X3 22 28", "A4 35 30", "X4 28 36", "X4 24 38", "A5 41 38", "X5 38 42",
+            "X0 26 0", "A6 45 46", "X6 0 48", "X3 32 22", "A6 45 52", "X6 22 54"};
+        e.literals(e.gates(INTS + "output x/y;", due), 0, 45, 17);
+        e.literals(e.gates(INTS + "output x%y;", due), 0, 50, 56);
     }
 
     private static void known(Edges e) {
@@ -407,6 +414,8 @@ public final class CircuitEdgesTest {
         // None of those that come in within it, or were visible in a BLOCK ahead of it.
         e.gates(head + "if(c){var v:bit;v=p;}else{var v:bit;v=q;}");
         e.gates(head + "if(c){var v:bit=p;v=q;}else{var w:bit=q;w=p;}");
+        e.gates(head + "var y:bit;var z:bit;var v:bit;if(c){var w:bit=p;v=q;w=q;}else{var u:bit=q;u=p;}", "A1 0 4");
+        e.gates(head + "var y:bit;if(c){var z:bit;if(p){var v:bit=p;v=q;y=v;}z=q;}", "A1 2 4", "A2 0 6");
         e.gates(head + "var v:bit;if(c){var w:bit=p;if(p){w=q;v=w;}}", "A1 2 4", "X0 4 2", "A1 2 8",
             "X1 2 10", "A2 0 6");
         e.use(2, 2);

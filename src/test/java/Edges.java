@@ -160,6 +160,68 @@ final class Edges {
         same("literal(" + k + ", " + due.length + ")", house.literal(k, due.length), -3);
     }
 
+    /** Of the same PROGRAM all that can be asked of two objects is the same, whatever came ahead of it on either one. */
+    void alike(String told, ShareHouse x, ShareHouse y) {
+        for (int what = 0; what <= 12; what++) {
+            same("look(" + what + ") of " + told, x.look(what), y.look(what));
+        }
+        for (int g = 0; g < y.look(1); g++) {
+            for (int what = 0; what < 4; what++) {
+                same("gate(" + g + ", " + what + ") of " + told, x.gate(g, what), y.gate(g, what));
+            }
+        }
+        for (int k = 0; k <= y.look(6); k++) {
+            for (int j = 0; j <= width; j++) {
+                same("literal(" + k + ", " + j + ") of " + told, x.literal(k, j), y.literal(k, j));
+            }
+            same("truth(" + k + ") of " + told, x.truth(k), y.truth(k));
+        }
+        for (int w = 0; w <= y.look(5); w++) {
+            for (int what = 0; what < 3; what++) {
+                same("input(" + w + ", " + what + ") of " + told, x.input(w, what), y.input(w, what));
+            }
+            same("give(" + w + ") of " + told, x.give(w, 77 * w + 5) ? 1 : 0, y.give(w, 77 * w + 5) ? 1 : 0);
+        }
+        alikeDealt(told, x, y);
+    }
+
+    /** A new deal of either one, whatever was dealt ahead of it. */
+    void alikeDealt(String told, ShareHouse x, ShareHouse y) {
+        x.seed(12);
+        y.seed(12);
+        same("deal of " + told, x.deal() ? 1 : 0, y.deal() ? 1 : 0);
+        for (int n = 0; n < 3 * parties && y.look(9) > 0; n++) {
+            int k = n * 7 % y.look(9);
+            int to = y.message(k, 1);
+            same("deliver(" + k + ") of " + told, x.deliver(k), y.deliver(k));
+            same("party(" + to + ", 0) of " + told, x.party(to, 0), y.party(to, 0));
+        }
+        for (int n = 0; n < 3; n++) {
+            for (int k = 0; k < y.look(9); k++) {
+                for (int what = 0; what < 60; what++) {
+                    same("message(" + k + ", " + what + ") of " + told, x.message(k, what), y.message(k, what));
+                }
+            }
+            same("rush of " + told, x.rush(n == 0 ? 5 : 100_000, n), y.rush(n == 0 ? 5 : 100_000, n));
+        }
+        for (int what = 9; what <= 14; what++) {
+            same("look(" + what + ") of " + told, x.look(what), y.look(what));
+        }
+        for (int p = 0; p <= parties; p++) {
+            for (int what = 0; what < 3; what++) {
+                same("party(" + p + ", " + what + ") of " + told, x.party(p, what), y.party(p, what));
+            }
+            int bits = y.party(p, 2);
+            for (int i = 0; i <= bits; i += i < 200 || i > bits - 200 ? 1 : 50) {
+                same("view(" + p + ", " + i + ") of " + told, x.view(p, i), y.view(p, i));
+            }
+            for (int k = 0; k <= y.look(6); k++) {
+                same("told(" + p + ", " + k + ") of " + told, x.told(p, k), y.told(p, k));
+                same("truth(" + k + ") of " + told, x.truth(k), y.truth(k));
+            }
+        }
+    }
+
     private static String shown(String text) {
         return text.length() <= 100 ? text : text.substring(0, 50) + " .. " + text.substring(text.length() - 40);
     }

@@ -27,6 +27,7 @@ public final class PromiseEdgesTest {
         edges.of("fourThousand", "it would have more than 4000", PromiseEdgesTest::fourThousand);
         edges.of("noText", "or one of them may not be in a TEXT.", PromiseEdgesTest::noText);
         edges.of("emptyThen", "The tape is a PROGRAM, and empty then", PromiseEdgesTest::emptyThen);
+        edges.of("likeNew", "and empty then: 0, it is the circuit", PromiseEdgesTest::likeNew);
         edges.of("inputsAreZero", "0, it is the circuit, all its inputs are 0", PromiseEdgesTest::inputsAreZero);
         edges.of("noCircuit", "or the FAULT: there is no circuit.", PromiseEdgesTest::noCircuit);
         edges.of("nothingDealt", "In both cases nothing is dealt, nothing in flight any more.", PromiseEdgesTest::nothingDealt);
@@ -278,6 +279,50 @@ public final class PromiseEdgesTest {
         }
         e.same("and an empty PROGRAM then", x.compile(), 0);
         e.same("without outputs", x.look(6), 0);
+    }
+
+    /** Texts that leave as much behind as they can, in whatever they are cut off by a FAULT. */
+    private static String[] leftBehind() {
+        String vars = "var a:int[64]=1;var b:bit[64]=true;var c:int[64]=2;var d:int[64]=3;";
+        String inputs = "input a of 0:int[64];input b of 1:bit[64];input c of 1:int[64];input d of 0:bit[64];";
+        String waiting = "true||true&&true|true^true&true==1<1<<1+1*";
+        StringBuilder deep = new StringBuilder("var n:int;");
+        for (int i = 0; i < 10; i++) {
+            deep.append("if(true){for k%=0to 1{var w%:int=7;n=w%;".replace("%", "" + i));
+        }
+        return new String[] {"", vars + "output a[1];", inputs + "output b[1];output a[c[0]];", vars + "$", inputs + "$",
+            "def f(x:int,y:int,z:int):int=x+y*z;output f(1,2,3);", "var a:int;def f(x:int):int=x+zz;", "var a:int;def f(x:int,y:bit,"
+            + "x:int):int=1;", "output " + (waiting + "int(").repeat(30) + "$", "output " + (waiting + "int(").repeat(30) + "zz",
+            deep + "$", deep + "n=true;" + "}".repeat(20), deep + "n=1<<8;" + "}".repeat(20),
+            "def f(x:int,y:int):int=x+(y<<8);output 1+(2+f(3,f(4,5)));", "input p of 0:bit;input q of 1:bit;var r:bit=p;"
+            + "for i=0to 250{for j=0to 7{r=!(r&&q);}}", "output 1;".repeat(60), "output 1<<8;",
+            "for i=0to 255{for j=0to 255{var z:bit=true;}}", inputs + "output a[c[0]]/c[1]/c[2]/c[3];",
+            vars + "if(true){".repeat(29) + "a[0]=4;d[63]=1<<8;" + "}".repeat(29)};
+    }
+
+    private static void likeNew(Edges e) {
+        String waiting = "true||true&&true|true^true&true==1<1<<1+1*";
+        String[] next = {"", "input p of 1:bit;var v:int[3];def f(x:int):int=x+1;v[0]=f(int(p));output v[0];output v[int(p)];",
+            "def g():int=4;def h(x:bit):bit=!x;input p of 0:bit;output g();output h(p)&&p;output p||h(h(p));",
+            "var a:int[64];var b:int[64];var c:int[64];var d:int[64];output a[0];output d[63];",
+            "input a of 1:int[64];input b of 1:bit[64];input c of 0:bit[64];input d of 0:bit[64];output a[63]&int(d[63]);",
+            "output " + (waiting + "int(").repeat(30) + "true" + ")".repeat(30) + ";",
+            "var n:int;if(true){var m:int;n=m+1;if(n==1){n=n+m;}}else{n=5;}for i=0to 3{n=n+i;}output n;",
+            "output zz;", "output 1", "def f(x:int):int=x<<8;output f(1);", "var a:int[64]=1;var b:bit[64]=true;var c:int[64]=2;"
+            + "var d:int[64]=3;" + "if(true){".repeat(29) + "a[0]=4;d[63]=5;" + "}".repeat(29) + "output a[0];output d[63];"};
+        for (String first : leftBehind()) {
+            for (String second : next) {
+                ShareHouse x = e.fresh();
+                ShareHouse y = e.fresh();
+                Check.compile(x, first);
+                x.give(0, 3);
+                x.deal();
+                x.rush(7, 1);
+                x.truth(0);
+                e.same("compile behind another", Check.compile(x, second), Check.compile(y, second));
+                e.alike(second.length() > 60 ? second.substring(0, 60) : second, x, y);
+            }
+        }
     }
 
     private static void inputsAreZero(Edges e) {
@@ -750,6 +795,17 @@ public final class PromiseEdgesTest {
             e.same("round", x.message(0, 2), 0);
             e.same("none more", x.message(2, 0), -1);
             x.rush(brought, 1);
+        }
+        // Wherever the one before it is left, some messages having come, some ahead of their round.
+        for (int n : new int[] {2, 3, 5}) {
+            e.use(n, 2);
+            ShareHouse y = e.built(SMALL);
+            ShareHouse z = e.built(SMALL);
+            for (int brought = 0; brought < 3 * n * (n - 1); brought++) {
+                y.deal();
+                y.rush(brought, brought * 5);
+                e.alikeDealt("a deal behind " + brought + " messages", y, z);
+            }
         }
     }
 

@@ -43,6 +43,7 @@ public final class ReadingEdgesTest {
         edges.of("types", "TYPE: SORT | SORT [ NUMBER ] (an ARRAY).", ReadingEdgesTest::types);
         edges.of("choice", "EXPR: CHOICE [? EXPR : EXPR]", ReadingEdgesTest::choice);
         edges.of("rows", "weakest first, those of one row from the left", ReadingEdgesTest::rows);
+        edges.of("pairs", "|| ; && ; | ; ^ ; & ; == != ; < <= > >= ; << >> ; + - ; * / % .", ReadingEdgesTest::pairs);
         edges.of("signs", "FACTOR: - ~ ! FACTOR", ReadingEdgesTest::signs);
         edges.of("callExprs", "NAME ( [EXPR {, EXPR}] )", ReadingEdgesTest::callExprs);
         edges.of("conversions", "int ( EXPR ), bit ( EXPR , EXPR ), ( EXPR ).", ReadingEdgesTest::conversions);
@@ -290,6 +291,8 @@ public final class ReadingEdgesTest {
         e.value("8/2*4", 16);
         e.value("9%5*2", 8);
         e.value("3*9%5", 2);
+        e.value("3*9/5", 5);
+        e.value("9/2%3", 1);
         e.value("4>>1<<1", 4);
         e.value("1==1==true", 1);
         e.value("1!=1==false", 1);
@@ -297,6 +300,58 @@ public final class ReadingEdgesTest {
         e.value("-1+2", 1);
         e.value("!true||true", 1);
         e.value("~1*2", 252);
+    }
+
+    private static final String[][] ROWS = {{"||"}, {"&&"}, {"|"}, {"^"}, {"&"}, {"==", "!="}, {"<", "<=", ">", ">="},
+        {"<<", ">>"}, {"+", "-"}, {"*", "/", "%"}};
+
+    /** Each operator beside each other one, over whatever SORTS: as it is with ( ) where they are due. */
+    private static void pairs(Edges e) {
+        e.use(2, 3);
+        ShareHouse plain = e.fresh();
+        ShareHouse due = e.fresh();
+        for (int low = 0; low < ROWS.length; low++) {
+            for (int high = 0; high < ROWS.length; high++) {
+                for (String one : ROWS[low]) {
+                    for (String other : ROWS[high]) {
+                        for (int sorts = 0; sorts < 8; sorts++) {
+                            String[] texts = pair(one, other, low < high, sorts);
+                            samePair(e, plain, texts[0], due, texts[1]);
+                        }
+                    }
+                }
+            }
+        }
+    }
+
+    private static String[] pair(String one, String other, boolean otherFirst, int sorts) {
+        String inputs = "input p of 0:bit;input q of 1:bit;input x of 0:int;input y of 1:int;output ";
+        // What stands right of a shift must be PUBLIC, or the FAULT would hide what it is right of.
+        boolean shift = one.equals("<<") || one.equals(">>");
+        String a = (sorts & 1) == 0 ? "p" : "x";
+        String b = (sorts & 2) == 0 ? shift ? "false" : "q" : shift ? "1" : "y";
+        String c = (sorts & 4) == 0 ? "true" : "1";
+        return new String[] {inputs + a + one + b + other + c + ";", inputs + (otherFirst ? a + one + "(" + b + other + c + ")"
+            : "(" + a + one + b + ")" + other + c) + ";"};
+    }
+
+    private static void samePair(Edges e, ShareHouse plain, String text, ShareHouse due, String with) {
+        int fault = Check.compile(due, with);
+        e.same("compile of " + text, Check.compile(plain, text), fault);
+        if (fault != 0) {
+            String ahead = with.substring(0, due.look(0));
+            e.same("place in " + text, plain.look(0), ahead.replace("(", "").replace(")", "").length());
+            return;
+        }
+        e.same("GATES of " + text, plain.look(1), due.look(1));
+        for (int g = 0; g < due.look(1); g++) {
+            for (int what = 0; what < 4; what++) {
+                e.same("gate of " + text, plain.gate(g, what), due.gate(g, what));
+            }
+        }
+        for (int j = 0; j < 4; j++) {
+            e.same("literal of " + text, plain.literal(0, j), due.literal(0, j));
+        }
     }
 
     private static void signs(Edges e) {

@@ -249,6 +249,9 @@ public final class BuildingEdgesTest {
         e.same("the last one", x.gate(MOST_GATES - 1, 2), 2 * 65);
         e.same("none behind it", x.gate(MOST_GATES, 0), -1);
         e.literals(x, 0, 2 * (66 + MOST_GATES - 1));
+        // And they are dealt and worked through, up to the last one.
+        e.outcome(gatesBut(2) + "output p&q;output p^q;output d;output c;", new int[] {-1, 0x12345678, 1, 1}, 1, 0, 1, 0x12345678);
+        e.outcome(gatesBut(2) + "output p&q;output p^q;output d;output c;", new int[] {7, -2, 1, 0}, 0, 1, 0, 6);
         e.due(8, gatesBut(0) + "@output p^q;", gatesBut(0) + "@output p&q;", gatesBut(1) + "output p^q;@output p^q;");
         // What makes no GATE has room still.
         e.sound(gatesBut(0) + "output !p;output p&p;output p^p;output p&true;output a<<1;output bit(a,3);output v?p:p;");
@@ -266,6 +269,7 @@ public final class BuildingEdgesTest {
         // And the parties come through as many.
         ShareHouse x = e.outcome(LEVELS + "output q;output q^r;", new int[] {1, 1}, 1, 0);
         e.same("messages that came", x.look(10), 2 * 2002);
+        e.same("messages that came to party 1", x.party(1, 1), 2002);
         e.outcome(LEVELS + "output q;output q^r;", new int[] {0, 1}, 0, 1);
         e.same("D", e.built("input p of 0:bit;input q of 1:bit;output p^q;").look(3), 0);
     }

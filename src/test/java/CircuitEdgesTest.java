@@ -227,6 +227,10 @@ public final class CircuitEdgesTest {
         for (int k = 0; k < due.length; k++) {
             e.literals(x, k, due[k]);
         }
+        x = e.gates("input x of 0:int;input p of 1:bit;output x;output int(p);output ~x;output int(!p);output int(bit(x,1));");
+        e.literals(x, 1, 6, -2, -2);
+        e.literals(x, 3, 7, -2, -2);
+        e.literals(x, 4, 2, -2, -2);
         e.use(2, 1);
         x = e.gates("input x of 0:int;input p of 1:bit;output int(p);output x<<0;output x>>0;output bit(x,0);");
         e.literals(x, 0, 2);

@@ -292,7 +292,8 @@ public final class PromiseEdgesTest {
         }
         return new String[] {"", vars + "output a[1];", inputs + "output b[1];output a[c[0]];", vars + "$", inputs + "$",
             "def f(x:int,y:int,z:int):int=x+y*z;output f(1,2,3);", "var a:int;def f(x:int):int=x+zz;", "var a:int;def f(x:int,y:bit,"
-            + "x:int):int=1;", "output " + (waiting + "int(").repeat(30) + "$", "output " + (waiting + "int(").repeat(30) + "zz",
+            + "x:int):int=1;", "output " + (waiting + "int(").repeat(30) + "$", "output " + (waiting + "int(").repeat(30) + "zz"
+            + ")".repeat(30) + ";",
             deep + "$", deep + "n=true;" + "}".repeat(20), deep + "n=1<<8;" + "}".repeat(20),
             "def f(x:int,y:int):int=x+(y<<8);output 1+(2+f(3,f(4,5)));", "input p of 0:bit;input q of 1:bit;var r:bit=p;"
             + "for i=0to 250{for j=0to 7{r=!(r&&q);}}", "output 1;".repeat(60), "output 1<<8;",
@@ -307,9 +308,10 @@ public final class PromiseEdgesTest {
             "var a:int[64];var b:int[64];var c:int[64];var d:int[64];output a[0];output d[63];",
             "input a of 1:int[64];input b of 1:bit[64];input c of 0:bit[64];input d of 0:bit[64];output a[63]&int(d[63]);",
             "output " + (waiting + "int(").repeat(30) + "true" + ")".repeat(30) + ";",
-            "var n:int;if(true){var m:int;n=m+1;if(n==1){n=n+m;}}else{n=5;}for i=0to 3{n=n+i;}output n;",
-            "output zz;", "output 1", "def f(x:int):int=x<<8;output f(1);", "var a:int[64]=1;var b:bit[64]=true;var c:int[64]=2;"
-            + "var d:int[64]=3;" + "if(true){".repeat(29) + "a[0]=4;d[63]=5;" + "}".repeat(29) + "output a[0];output d[63];"};
+            "input p of 0:bit;var n:int;if(p){var m:int;m=n+1;n=m;if(n==1){m=m+1;n=n+m;}}else{n=5;}for i=0to 3{n=n+i;}output n;",
+            "output zz;", "output 1", "def f(x:int):int=x<<8;output f(1);", "input p of 0:bit;input x of 1:int;"
+            + "var a:int[64]=1;var b:bit[64]=true;var c:int[64]=2;var d:int[64]=3;" + "if(p){".repeat(29) + "a[0]=x;d[63]=x;"
+            + "}".repeat(29) + "output a[0];output d[63];"};
         for (String first : leftBehind()) {
             for (String second : next) {
                 ShareHouse x = e.fresh();
@@ -1108,6 +1110,9 @@ public final class PromiseEdgesTest {
         e.same("as dealt still", x.truth(0), 7);
         x.deal();
         e.same("of the latest deal", x.truth(0), 8);
+        x.deal();
+        x.give(0, 9);
+        e.same("of the latest deal, though another one is told", x.truth(0), 8);
         Check.compile(x, "input a of 0:int;output a;");
         e.same("nothing dealt", x.truth(0), 0);
         x.give(0, 3);

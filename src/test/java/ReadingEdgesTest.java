@@ -69,6 +69,7 @@ public final class ReadingEdgesTest {
 
     private static void nesting(Edges edges) {
         edges.of("nestedParens", "( ) around EXPRs", ReadingEdgesTest::nestedParens);
+        edges.of("nestedAnywhere", "the 31st that lie in one another of", ReadingEdgesTest::nestedAnywhere);
         edges.of("nestedCalls", "(also those of a call without any)", ReadingEdgesTest::nestedCalls);
         edges.of("nestedIndexes", "and [ ] around one", ReadingEdgesTest::nestedIndexes);
         edges.of("nestedSigns", "- ~ ! with their FACTOR", ReadingEdgesTest::nestedSigns);
@@ -610,6 +611,23 @@ public final class ReadingEdgesTest {
         e.due(3, "def f(x:int):int=x;output " + "f(".repeat(30) + "f@(1)" + ")".repeat(30) + ";");
         e.sound("def f(x:int,y:int):int=x;output " + "f(1,".repeat(30) + "1" + ")".repeat(30) + ";");
         e.due(3, "def f(x:int,y:int):int=x;output " + "f(1,".repeat(30) + "f@(1,1)" + ")".repeat(30) + ";");
+    }
+
+    /** Wherever an EXPR may stand, and however much of them lies around it. */
+    private static void nestedAnywhere(Edges e) {
+        String[] places = {"output %;", "var a:int=%;", "var a:int[2]=%;", "var a:int;a=%;", "def f():int=%;", "for i=% to 1{}",
+            "for i=0to %{}", "def f(x:int):int=x;output 1+%;", "output true?1:2;output 2*%;"};
+        for (String place : places) {
+            e.sound(place.replace("%", "(".repeat(30) + "1" + ")".repeat(30)), place.replace("%", "-".repeat(30) + "1"));
+            e.due(3, place.replace("%", "(".repeat(30) + "@(1" + ")".repeat(31)), place.replace("%", "-".repeat(30) + "@-1"));
+        }
+        String[] within = {"var a:int[2];output a[%];", "var a:int[2];a[%]=1;", "def f(x:int):int=x;output f(%);",
+            "output bit(%,0);", "output bit(1,%);", "output true?%:2;", "output true?1:%;", "if(1==%){}",
+            "if(true){}else{var z:int=%;}", "if(true){var z:int=%;}", "for i=0to 1{var z:int=%;}", "output (%);", "output ~%;"};
+        for (String place : within) {
+            e.sound(place.replace("%", "(".repeat(29) + "1" + ")".repeat(29)));
+            e.due(3, place.replace("%", "(".repeat(29) + "@(1" + ")".repeat(30)));
+        }
     }
 
     private static void nestedCalls(Edges e) {

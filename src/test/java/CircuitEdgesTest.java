@@ -422,6 +422,10 @@ public final class CircuitEdgesTest {
         e.gates(head + "var y:bit;if(c){var z:bit;if(p){var v:bit=p;v=q;y=v;}z=q;}", "A1 2 4", "A2 0 6");
         e.gates(head + "var v:bit;if(c){var w:bit=p;if(p){w=q;v=w;}}", "A1 2 4", "X0 4 2", "A1 2 8",
             "X1 2 10", "A2 0 6");
+        // As many words as there can be.
+        e.gates(head + "var s:bit[64];var t:int[64];var u:bit[64];var v:bit[64];if(c){v[63]=p;s[0]=q;}", "A1 0 4", "A1 0 2");
+        e.gates(head + "var s:bit[64];var t:int[64];var u:bit[64];var v:bit[64];if(c){v[63]=p;}else{v[63]=q;}", "X0 2 4",
+            "A1 0 6", "X1 4 8");
         e.use(2, 2);
         e.gates("input c of 0:bit;input x of 1:int;var v:int;var w:int[2];if(c){w[1]=x;w[0]=x;v=x;}", "A1 0 2", "A1 0 4", "A1 0 2",
             "A1 0 4", "A1 0 2", "A1 0 4");

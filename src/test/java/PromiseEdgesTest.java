@@ -308,7 +308,8 @@ public final class PromiseEdgesTest {
             "var a:int[64];var b:int[64];var c:int[64];var d:int[64];output a[0];output d[63];",
             "input a of 1:int[64];input b of 1:bit[64];input c of 0:bit[64];input d of 0:bit[64];output a[63]&int(d[63]);",
             "output " + (waiting + "int(").repeat(30) + "true" + ")".repeat(30) + ";",
-            "input p of 0:bit;var n:int;if(p){var m:int;m=n+1;n=m;if(n==1){m=m+1;n=n+m;}}else{n=5;}for i=0to 3{n=n+i;}output n;",
+            "input p of 0:bit;input x of 1:int;var n:int;if(p){var m:int;m=n+x;n=m;if(n==1){m=m+1;n=n+m;}}else{n=5;}"
+            + "for i=0to 3{n=n+i;}output n;",
             "output zz;", "output 1", "def f(x:int):int=x<<8;output f(1);", "input p of 0:bit;input x of 1:int;"
             + "var a:int[64]=1;var b:bit[64]=true;var c:int[64]=2;var d:int[64]=3;" + "if(p){".repeat(29) + "a[0]=x;d[63]=x;"
             + "}".repeat(29) + "output a[0];output d[63];"};

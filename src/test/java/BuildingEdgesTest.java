@@ -252,11 +252,49 @@ public final class BuildingEdgesTest {
         // And they are dealt and worked through, up to the last one.
         e.outcome(gatesBut(2) + "output p&q;output p^q;output d;output c;", new int[] {-1, 0x12345678, 1, 1}, 1, 0, 1, 0x12345678);
         e.outcome(gatesBut(2) + "output p&q;output p^q;output d;output c;", new int[] {7, -2, 1, 0}, 0, 1, 0, 6);
+        fullDeal(e);
         e.due(8, gatesBut(0) + "@output p^q;", gatesBut(0) + "@output p&q;", gatesBut(1) + "output p^q;@output p^q;");
         // What makes no GATE has room still.
         e.sound(gatesBut(0) + "output !p;output p&p;output p^p;output p&true;output a<<1;output bit(a,3);output v?p:p;");
         e.due(8, gatesBut(31) + "@output a+b;", gatesBut(31) + "@c=a&b;");
         e.sound(gatesBut(32) + "c=a&b;", gatesBut(32) + "output a^b;");
+    }
+
+    /** As many bits of inputs and as many ANDs as there can be, all of these of one LEVEL. */
+    private static void fullDeal(Edges e) {
+        String text = "input a of 0:int[64];input b of 1:int[64];input c of 0:int[64];input d of 1:int[64];var v:int;"
+            + "for i=0to 249{for j=0to 4{v=a[0]&d[63];}}output v;output a[63]^a[63];output d[63];";
+        int[] inputs = new int[256];
+        inputs[0] = 0x7654FEDC;
+        inputs[255] = 0xFFFF0F0F;
+        ShareHouse x = e.outcome(text, inputs, 0x76540E0CL, 0, 0xFFFF0F0FL);
+        e.same("ANDs", x.look(2), MOST_GATES);
+        e.same("bits of inputs", x.look(4), 8192);
+        e.same("DRAWS", x.look(7), 8192 + 5 * MOST_GATES);
+        e.holds("share of the last wire", x.share(1, 8192 + MOST_GATES - 1) >= 0);
+        e.same("no wire behind it", x.share(1, 8192 + MOST_GATES), -1);
+        x.deal();
+        x.rush(2, 0);
+        message(e, x, 1, MOST_GATES, MOST_GATES - 1);
+        for (int what = 0; what < 3; what++) {
+            e.same("the last of what is dealt", x.view(1, 2 * 4096 + 3 * (MOST_GATES - 1) + what),
+                x.dealt(1, MOST_GATES - 1, what));
+        }
+    }
+
+    /** The last two bits that both messages in flight have, of a round with so many ANDs: those of this GATE. */
+    private static void message(Edges e, ShareHouse x, int round, int ands, int gate) {
+        for (int k = 0; k < 2; k++) {
+            int from = x.message(k, 0);
+            e.same("round", x.message(k, 2), round);
+            e.same("bits of round " + round, x.message(k, 3), 2 * ands);
+            for (int which = 0; which < 2; which++) {
+                int literal = x.gate(gate, 2 + which);
+                int due = x.share(from, literal / 2) ^ (from == 0 ? literal & 1 : 0) ^ x.dealt(from, gate, which);
+                e.same("bit of round " + round + " from " + from, x.message(k, 4 + 2 * ands - 2 + which), due);
+            }
+            e.same("no bit more", x.message(k, 4 + 2 * ands), -1);
+        }
     }
 
     private static void levels(Edges e) {
@@ -270,6 +308,10 @@ public final class BuildingEdgesTest {
         ShareHouse x = e.outcome(LEVELS + "output q;output q^r;", new int[] {1, 1}, 1, 0);
         e.same("messages that came", x.look(10), 2 * 2002);
         e.same("messages that came to party 1", x.party(1, 1), 2002);
+        e.same("bits of a VIEW", x.party(0, 2), 1 + 1 + 3 * 2000 + 1 + 2 * 2000 + 2);
+        x.deal();
+        x.rush(2 * 2000, 0);
+        message(e, x, 2000, 1, 1999);
         e.outcome(LEVELS + "output q;output q^r;", new int[] {0, 1}, 0, 1);
         e.same("D", e.built("input p of 0:bit;input q of 1:bit;output p^q;").look(3), 0);
     }

@@ -287,7 +287,7 @@ public final class DealEdgesTest {
                 e.same("round", x.message(k, 2), 2);
                 e.same("bits", x.message(k, 3), 13);
                 for (int i = 0, o = 0; o < 5; o++) {
-                    for (int j = 0; x.literal(o, j) != -3; j++, i++) {
+                    for (int j = 0; j < 3 && x.literal(o, j) != -3; j++, i++) {
                         e.same("bit " + i + " from " + from, x.message(k, 4 + i), shareOf(x, from, x.literal(o, j)));
                     }
                 }
@@ -533,7 +533,7 @@ public final class DealEdgesTest {
         for (int k = 0; k < x.look(9); k++) {
             flight.add(told(x, k));
         }
-        while (!flight.isEmpty()) {
+        for (int n = 0; n < 1000 && !flight.isEmpty(); n++) {
             int k = random.nextInt(3) == 0 ? flight.size() - 1 : random.nextInt(flight.size());
             int to = flight.remove(k) / 10 % 10;
             int at = x.party(to, 0);
@@ -615,7 +615,7 @@ public final class DealEdgesTest {
             for (int p = 0; p < 4; p++) {
                 begin[p] = x.party(p, 2);
             }
-            for (int n = 0; x.look(9) > 0; n++) {
+            for (int n = 0; n < 1000 && x.look(9) > 0; n++) {
                 int k = random.nextInt(x.look(9));
                 int to = x.message(k, 1);
                 for (int i = 0; i < x.message(k, 3); i++) {

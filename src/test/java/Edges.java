@@ -1,4 +1,3 @@
-import java.util.ArrayList;
 import java.util.List;
 import java.util.function.Consumer;
 
@@ -11,10 +10,11 @@ final class Edges {
     static final int[] WRONG = {-1, -2, -1000, Integer.MIN_VALUE, Integer.MIN_VALUE + 1, Integer.MAX_VALUE,
         Integer.MAX_VALUE - 3, 1 << 30, 1 << 16};
 
+    private static final long MOST_MILLISECONDS = 120_000;
+
     private final String name;
     private final Check check;
     private final List<String> wanted;
-    private final List<String> broken = new ArrayList<>();
     private int parties;
     private int width;
 
@@ -35,15 +35,28 @@ final class Edges {
         }
         use(2, 8);
         int before = check.wrong();
-        try {
-            test.accept(this);
-        } catch (RuntimeException | StackOverflowError e) {
-            check.holds(key + " without " + e, false);
-        }
+        boolean ended = ends(() -> test.accept(this));
+        check.holds(key + " ends", ended);
         if (check.wrong() > before) {
-            broken.add(key);
             System.out.println(name + ": broken " + key + ": \"" + sentence + "\"");
         }
+        if (!ended) {
+            System.exit(1);
+        }
+    }
+
+    /** A call that does not end must not hold up all the others. */
+    private boolean ends(Runnable test) {
+        Thread thread = new Thread(test, name);
+        thread.setDaemon(true);
+        thread.setUncaughtExceptionHandler((t, e) -> check.holds("without " + e, false));
+        thread.start();
+        try {
+            thread.join(MOST_MILLISECONDS);
+        } catch (InterruptedException e) {
+            return false;
+        }
+        return !thread.isAlive();
     }
 
     void end() {

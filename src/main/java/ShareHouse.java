@@ -1692,7 +1692,7 @@ public final class ShareHouse {
             level[gates] = itsLevel;
             number[gates] = isAnd ? ands : NONE;
             ands += isAnd ? 1 : 0;
-            depth = Math.max(depth, itsLevel);
+            depth = itsLevel > depth ? itsLevel : depth;
             gates++;
             return 2 * (inputWires + gates - 1);
         }

@@ -4,6 +4,7 @@ import java.nio.charset.StandardCharsets;
 import java.nio.file.Files;
 import java.nio.file.Path;
 import java.util.ArrayList;
+import java.util.Arrays;
 import java.util.List;
 import java.util.Map;
 import java.util.TreeMap;
@@ -19,12 +20,17 @@ import javax.tools.JavaCompiler;
 import javax.tools.ToolProvider;
 
 /**
- * No test, but a trial of them, run by hand: for each sentence that has a boundary test the class is broken in the way
- * that src/test/broken tells, and that sentence's own test must fail then. It goes by the text of the class: when that
- * changes, src/test/broken is to be changed with it.
+ * No test, but a trial of them, run by hand: for each sentence that has a test of its own the class is broken in the way
+ * that src/test/broken tells, and that sentence's own test must fail then; and no sentence of the document may be without
+ * one. It goes by the text of the class: when that changes, src/test/broken is to be changed with it.
  */
 public final class Broken {
-    private static final String[] GROUPS = {"Reading", "Sorts", "Meaning", "Circuit", "Building", "Deal", "Promise"};
+    private static final String[] TESTS = {"ReadingEdgesTest", "SortsEdgesTest", "MeaningEdgesTest", "CircuitEdgesTest",
+        "BuildingEdgesTest", "DealEdgesTest", "PromiseEdgesTest", "PlainTest"};
+    /** Headings, the lines that the public face has already, and what the document leaves free: no test can fail there. */
+    private static final String NOTHING_TO_TEST = "# ShareHouse ## What it is |; what later calls answer is free\\. |"
+        + "## The public face |```(java|text)? |## Terms |---- THE (LANGUAGE|CIRCUIT|DEALER|PARTIES)\\. |READING\\. FAULTS, |"
+        + "MEANING\\. |## Promise \\d+: [\\w ]+( `[^`]*`:)? |## Not promised .*";
     private static final int MOST_SECONDS = 120;
 
     /** Lines of the class, and what stands in their place then. */
@@ -45,6 +51,8 @@ public final class Broken {
                 wrong.add(key + ": src/test/broken has no way to break it");
             }
         });
+        wrong.addAll(untested(document, sentences));
+        ways.keySet().stream().filter(key -> !sentences.containsKey(key)).forEach(key -> wrong.add(key + ": no such test"));
         ExecutorService threads = Executors.newFixedThreadPool(Runtime.getRuntime().availableProcessors());
         Map<String, Future<String>> outcomes = new TreeMap<>();
         ways.forEach((key, edits) -> outcomes.put(key, threads.submit(() -> outcome(key, source, edits))));
@@ -68,6 +76,27 @@ public final class Broken {
 
     private static String blanked(String text) {
         return text.replaceAll("\\s+", " ");
+    }
+
+    /** What of the document is neither in a sentence that has a test nor without anything to test. */
+    private static List<String> untested(String document, Map<String, String> sentences) {
+        boolean[] seen = new boolean[document.length()];
+        for (String sentence : sentences.values()) {
+            String part = blanked(sentence);
+            for (int from = document.indexOf(part); from >= 0; from = document.indexOf(part, from + 1)) {
+                Arrays.fill(seen, from, from + part.length(), true);
+            }
+        }
+        Matcher free = Pattern.compile(NOTHING_TO_TEST).matcher(document);
+        while (free.find()) {
+            Arrays.fill(seen, free.start(), free.end(), true);
+        }
+        StringBuilder left = new StringBuilder();
+        for (int i = 0; i < document.length(); i++) {
+            left.append(seen[i] ? '\n' : document.charAt(i));
+        }
+        return Arrays.stream(left.toString().split("\n+")).filter(part -> Pattern.compile("\\w").matcher(part).find())
+            .map(part -> "no test has: " + part).collect(Collectors.toList());
     }
 
     private static Map<String, List<Edit>> ways() throws IOException {
@@ -95,16 +124,20 @@ public final class Broken {
 
     private static Map<String, String> sentences() throws IOException, InterruptedException {
         Map<String, String> all = new TreeMap<>();
-        for (String group : GROUPS) {
-            Process process = new ProcessBuilder("java", "-cp", System.getProperty("java.class.path"), group + "EdgesTest", "list")
+        for (String test : TESTS) {
+            Process process = new ProcessBuilder("java", "-cp", System.getProperty("java.class.path"), test, "list")
                 .redirectErrorStream(true).start();
             for (String line : new String(process.getInputStream().readAllBytes(), StandardCharsets.UTF_8).split("\n")) {
                 String[] parts = line.split("\t");
-                all.put(group + "." + parts[1], parts[2].trim());
+                all.put(groupOf(test) + "." + parts[1], parts[2].trim());
             }
             process.waitFor();
         }
         return all;
+    }
+
+    private static String groupOf(String test) {
+        return test.replaceAll("(Edges)?Test$", "");
     }
 
     /** Empty if the break is caught, else what went otherwise. */
@@ -142,8 +175,9 @@ public final class Broken {
 
     private static String tried(String key, Path folder) throws IOException, InterruptedException {
         String[] parts = key.split("\\.");
+        String test = Arrays.stream(TESTS).filter(each -> groupOf(each).equals(parts[0])).findFirst().orElseThrow();
         Process process = new ProcessBuilder("java", "-XX:+UseSerialGC", "-Xss1m", "-cp",
-            folder + File.pathSeparator + System.getProperty("java.class.path"), parts[0] + "EdgesTest", parts[1])
+            folder + File.pathSeparator + System.getProperty("java.class.path"), test, parts[1])
             .redirectErrorStream(true).redirectOutput(ProcessBuilder.Redirect.DISCARD).start();
         if (!process.waitFor(MOST_SECONDS, TimeUnit.SECONDS)) {
             process.destroyForcibly();
